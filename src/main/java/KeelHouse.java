@@ -2067,6 +2067,10 @@ public final class KeelHouse {
       return stage == LOST || stage == SOLD;
     }
 
+    boolean isWorkedAt() {
+      return stage == ON_SLIP || stage == AFLOAT;
+    }
+
     int addItem(int tonnes, int compartment, int side, int up) {
       itemTonnes[itemCount] = tonnes;
       itemPlaces[itemCount] = compartment;
@@ -2325,7 +2329,9 @@ public final class KeelHouse {
 
     void workDay(Ship[] ships, int shipCount, boolean isRain) {
       for (int i = 0; i < shipCount; i++) {
-        rows[i].beginDay();
+        if (ships[i].isWorkedAt()) {
+          rows[i].beginDay();
+        }
       }
       for (int trade = 0; trade < teams.length; trade++) {
         int hours = !isRain || trade == 1 ? 8 : trade == 0 ? 4 : 0;
@@ -2340,12 +2346,11 @@ public final class KeelHouse {
       int chosenJob = 0;
       int leastSlack = 0;
       for (int i = 0; i < shipCount; i++) {
-        int stage = ships[i].stage;
         Works works = rows[i];
         int done = works.doneSet();
-        for (int job = 0; job < JOBS && (stage == ON_SLIP || stage == AFLOAT); job++) {
+        for (int job = 0; job < JOBS && ships[i].isWorkedAt(); job++) {
           int slack = works.late[job] - works.early[job];
-          boolean isPlace = job != JOB_RIG || stage == AFLOAT;
+          boolean isPlace = job != JOB_RIG || ships[i].stage == AFLOAT;
           if (JOB_TRADES[job] == trade && isPlace && works.isOpen(job, done)
               && (chosen == null || slack < leastSlack)) {
             chosen = works;
@@ -2456,10 +2461,10 @@ public final class KeelHouse {
       }
       queue[0] = 0;
       int tail = 1;
-      for (int head = 0; head < tail; head++) {
+      for (int head = 0; head < tail && head < NODES; head++) {
         for (int i = 0; i < count; i++) {
           int next = isOpen(i) && i != without ? beyond(i, queue[head]) : NONE;
-          if (next != NONE && !isReached[next]) {
+          if (next != NONE && !isReached[next] && tail < NODES) {
             isReached[next] = true;
             cameBy[next] = i;
             queue[tail] = next;
