@@ -1,6 +1,9 @@
 import java.util.Arrays;
 
-/** A yard that draws, builds, fits out, sells and sails ships; the words in capitals of its document are told here in small letters. */
+/**
+ * A yard that draws, builds, fits out, sells and sails ships.
+ * What its document writes in capitals has the same names here, in small letters.
+ */
 public final class KeelHouse {
   private static final int NONE = -1;
 
@@ -1848,7 +1851,6 @@ public final class KeelHouse {
       gm = 0.0;
       list = CAPSIZED;
       trim = 0.0;
-      skin = 0.0;
       if (floatsAt >= 0.0) {
         hull.measureAt(floatsAt);
         gm = hull.high + hull.across - kg - free;
@@ -2203,7 +2205,6 @@ public final class KeelHouse {
 
     void copyFrom(Works other) {
       isLaid = other.isLaid;
-      System.arraycopy(other.hours, 0, hours, 0, JOBS);
       System.arraycopy(other.left, 0, left, 0, JOBS);
       System.arraycopy(other.strakes, 0, strakes, 0, STRAKES);
     }
@@ -2779,7 +2780,6 @@ public final class KeelHouse {
     void end(int place, int atPort) {
       where = place;
       port = atPort;
-      isWaiting = false;
     }
   }
 
@@ -2811,7 +2811,6 @@ public final class KeelHouse {
       standing = ABOARD;
       ship = onto;
       compartment = into;
-      side = 0.0;
     }
 
     void leave(int newStanding) {

@@ -255,7 +255,52 @@ public final class BooksTest {
     auditsOf("one that drew", Yards.drawn(), 0);
     auditsOf("one that lost one", Yards.lost(), 0);
     auditsOf("a rich one", rich(), 3);
+    auditsOf("a full one", full(), 0);
     Check.same("two that are alike", rich().digest(), rich().digest());
+  }
+
+  /** As many of all as there can be, and a day with that. */
+  private static KeelHouse full() {
+    KeelHouse yard = Yards.ready();
+    Yards.addBox(yard);
+    Yards.addBox(yard);
+    yard.lay(1, 0);
+    yard.lay(2, 1);
+    yard.sheets(20, 60, 8, 1, 1);
+    yard.sheets(23, 77, 9, 1, 1);
+    for (int i = 0; i < 3; i++) {
+      yard.order(i, 300);
+    }
+    yard.pass(1);
+    yard.cutAll(1, 1);
+    yard.cutAll(2, 2);
+    for (int i = 0; i < 6; i++) {
+      yard.order(i % 3, 3);
+      yard.put(i % 3, 5 + i, i, i, i);
+      yard.port(5 * i, 3 * i, 100 + i);
+      yard.net(i % 3, 20);
+    }
+    for (int i = 0; i < 8; i++) {
+      yard.lot(i % 6, (i + 1) % 6, 3 + i, i % 3, 10 + i);
+    }
+    for (int i = 0; i < 4; i++) {
+      yard.buyer(30 + i, i, 1 << i, 100, 900);
+    }
+    for (int i = 0; i < 3; i++) {
+      yard.bid(i, i, 300 + i);
+      for (int pipe = 0; pipe < 6; pipe++) {
+        yard.pipe(i, pipe, 7, 3 + pipe);
+      }
+    }
+    yard.bunker(0, 77);
+    yard.sail(0, 3);
+    int[] due = {3, 3, 8, 6};
+    for (int i = 0; i < 4; i++) {
+      Check.same("yard(" + (7 + i) + ") of a full one", due[i], yard.yard(7 + i));
+    }
+    yard.valve(0, 11);
+    Check.same("the last pipe", 1 << 11, yard.engine(0, 5));
+    return yard;
   }
 
   private static void auditsRefuse() {

@@ -5,6 +5,7 @@ public final class EdgeTest {
     layingRefuses();
     launchRefuses();
     launching();
+    launchByTenths();
     launchInVain();
     launchWithoutBerth();
     launchLost();
@@ -29,6 +30,8 @@ public final class EdgeTest {
     yard.draw(0, 60, 6, 40);
     yard.draw(0, 61, 6, 40);
     yard.draw(0, 80, 6, 40);
+    KeelHouse other = Yards.drawn();
+    Check.same("the slip 0 is free", 1, other.lay(0, 1));
     Check.badState(yard, "61 on 60", () -> yard.lay(1, 0));
     Check.same("60 on 60", 1, yard.lay(0, 0));
     Check.same("spot", 0, yard.lies(0, 0));
@@ -62,6 +65,57 @@ public final class EdgeTest {
     Check.badState(slip, "launch without job 19", () -> slip.launch(0));
     KeelHouse afloat = Yards.afloat();
     Check.badState(afloat, "launch of one that is afloat", () -> afloat.launch(0));
+    launchWithoutOneJob();
+  }
+
+  private static void launchWithoutOneJob() {
+    KeelHouse keel = Yards.withoutStrakes();
+    keel.teams(1, 6);
+    keel.pass(20);
+    Check.same("the keel alone is not done", 0x1ffffe | 1 << 21, keel.works(0, 1));
+    Check.badState(keel, "launch without the keel", () -> keel.launch(0));
+    KeelHouse engine = Yards.withoutStrakes();
+    engine.teams(0, 6);
+    engine.teams(1, 6);
+    engine.pass(6);
+    Yards.calm(engine, 0);
+    Check.same("the engine is not done", 0xfffff, engine.works(0, 1));
+    Check.same("launch without the engine", 3, engine.launch(0));
+    for (int job = 1; job <= 18; job += 17) {
+      KeelHouse yard = Yards.drawn();
+      int left = job;
+      for (int c = 0; c < 6; c++) {
+        yard.plan(0, c, left == 1 && c == 5 ? 6 : 0, 0, left == 18 && c == 5 ? 6 : 0);
+      }
+      yard.lay(0, 0);
+      yard.teams(0, 6);
+      yard.teams(1, 6);
+      yard.pass(30);
+      Check.badState(yard, "launch without a strake", () -> yard.launch(0));
+    }
+  }
+
+  /** By the tide of each day that is calm: a ship that needs just that, and one that needs a tenth more. */
+  private static void launchByTenths() {
+    boolean isSeen = false;
+    for (int wait = 0; wait < 24; wait++) {
+      KeelHouse yard = Yards.built();
+      yard.pass(wait + 1);
+      int tide = yard.yard(2);
+      int weight = (tide - 10 - 3) * 40 - 20 - (int) yard.floats(0, 0);
+      if (yard.yard(1) >= 13 || weight < 1 || weight > 1700) {
+        continue;
+      }
+      isSeen = true;
+      yard.put(0, weight - weight / 2, 2, 0, 0);
+      yard.put(0, weight / 2 + 1, 3, 0, 0);
+      Check.same("its need", tide - 10, yard.lies(0, 2));
+      yard.put(0, 40, 2, 0, 0);
+      Check.same("launch with a tenth too little", -1, yard.launch(0));
+      yard.take(0, 2);
+      Check.same("launch with just enough", 3, yard.launch(0));
+    }
+    Check.same("some day was calm", true, isSeen);
   }
 
   private static void launching() {
@@ -153,15 +207,9 @@ public final class EdgeTest {
     Check.badState(yard, "launch of a lost one", () -> yard.launch(0));
   }
 
-  private static void calm(KeelHouse yard, int least) {
-    for (int i = 0; i < 60 && (yard.yard(1) >= 13 || yard.yard(2) < least); i++) {
-      yard.pass(1);
-    }
-  }
-
   private static void shifting() {
     KeelHouse yard = Yards.afloat();
-    calm(yard, 45);
+    Yards.calm(yard, 45);
     Check.same("shift", 0, yard.shift(0, 5));
     Check.same("spot", 5, yard.lies(0, 0));
     Check.same("spot(3, 0)", -1, yard.spot(3, 0));
@@ -169,11 +217,11 @@ public final class EdgeTest {
     while (yard.lies(0, 1) < 3) {
       yard.pass(1);
     }
-    calm(yard, 45);
+    Yards.calm(yard, 45);
     int foul = yard.lies(0, 1);
     Check.same("shift to a berth", foul, yard.shift(0, 4));
     Check.same("foul stays", foul, yard.lies(0, 1));
-    calm(yard, 45);
+    Yards.calm(yard, 45);
     Check.same("shift into the dock", foul, yard.shift(0, 2));
     Check.same("foul in the dock", 0, yard.lies(0, 1));
     Check.same("tell", "0 afloat at 2", yard.tell(0));
@@ -203,7 +251,7 @@ public final class EdgeTest {
     for (int i = 0; i < 3; i++) {
       heavy.put(0, 900, 2, 0, 0);
     }
-    calm(heavy, 45);
+    Yards.calm(heavy, 45);
     Check.same("shift without a draught", -1, heavy.shift(0, 4));
     Check.same("its need", -1, heavy.lies(0, 2));
   }
@@ -267,7 +315,7 @@ public final class EdgeTest {
       due += day % 10 == 0 ? 1 : 0;
       Check.same("foul on " + day, due, yard.lies(0, 1));
     }
-    calm(yard, 45);
+    Yards.calm(yard, 45);
     yard.shift(0, 2);
     yard.pass(30);
     Check.same("foul in the dock", 0, yard.lies(0, 1));
@@ -310,12 +358,12 @@ public final class EdgeTest {
     Check.same("a slip costs 2", -10, yard.money(2, 0, 0));
     Check.same("cash", 4990, yard.cash());
     KeelHouse afloat = Yards.afloat();
-    calm(afloat, 45);
+    Yards.calm(afloat, 45);
     int before = afloat.money(2, 0, 14);
     afloat.shift(0, 2);
     afloat.pass(3);
     Check.same("the dock costs 9", before - 27, afloat.money(2, 0, 14));
-    calm(afloat, 45);
+    Yards.calm(afloat, 45);
     afloat.shift(0, 5);
     before = afloat.money(2, 0, 14);
     afloat.pass(3);

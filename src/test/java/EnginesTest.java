@@ -15,6 +15,7 @@ public final class EnginesTest {
     speeds();
     trials();
     burstPipes();
+    trialsByWidth();
     trialsRefuse();
     trialTooSlow();
     goneShips();
@@ -58,7 +59,8 @@ public final class EnginesTest {
   private static void pipesRefuse() {
     KeelHouse yard = new KeelHouse();
     yard.draw(0, 40, 6, 40);
-    Check.noIndex(yard, "pipe from 8", () -> yard.pipe(0, 8, 8, 0));
+    Check.noIndex(yard, "pipe from 8", () -> yard.pipe(0, 8, 7, 1));
+    Check.noIndex(yard, "pipe from 8 to 8 of 0", () -> yard.pipe(0, 8, 8, 0));
     Check.noIndex(yard, "pipe from -1", () -> yard.pipe(0, -1, 7, 1));
     Check.noIndex(yard, "pipe to 8", () -> yard.pipe(0, 0, 8, 0));
     Check.noIndex(yard, "pipe to -1", () -> yard.pipe(0, 0, -1, 1));
@@ -88,6 +90,15 @@ public final class EnginesTest {
     Check.same("narrow", 5, yard.engine(0, 3));
     yard.valve(0, 1);
     Check.same("1 to 7 shut: by 1 to 2, 2 to 7 is full", 10, yard.engine(0, 2));
+    yard.valve(0, 2);
+    Check.same("by 1 to 2 alone", 10, yard.engine(0, 2));
+    yard.valve(0, 4);
+    Check.same("that is shut, too", 0, yard.engine(0, 2));
+    yard.net(0, 10);
+    yard.valve(0, 0);
+    yard.valve(0, 3);
+    Check.same("by 2 to 1 alone: narrow is 0 to 2", 4, yard.engine(0, 3));
+    Check.same("flow", 10, yard.engine(0, 2));
     Check.same("net", 6, yard.net(0, 99));
     Check.same("flow", 198, yard.engine(0, 2));
     Check.badArgument(yard, "net of 0", () -> yard.net(0, 0));
@@ -266,11 +277,13 @@ public final class EnginesTest {
     KeelHouse yard = Yards.afloat();
     Yards.buildOn(yard, 0, 23);
     yard.net(0, 1);
+    trialsByLuck(yard);
     int burst = 0;
     for (int i = 0; i < 40 && burst == 0; i++) {
       Check.same("40 is too little for 4.0", 2, yard.hull(0, 3));
       burst = yard.trial(0);
     }
+    Check.same("a net laid anew is whole", 0, anewBehindBurst());
     Check.same("one burst, at most both", true, burst == 1 || burst == 2);
     int set = yard.engine(0, 4);
     Check.same("set of burst ones", burst, Integer.bitCount(set));
@@ -284,6 +297,49 @@ public final class EnginesTest {
     Check.same("flow", 2, yard.engine(0, 2));
     Check.same("mend of whole ones", 0, yard.mend(0));
     Check.same("that costs nothing", before - 5 * burst, yard.money(8, 0, 14));
+  }
+
+  private static int anewBehindBurst() {
+    KeelHouse yard = Yards.afloat();
+    Yards.buildOn(yard, 0, 23);
+    yard.net(0, 1);
+    for (int i = 0; i < 40 && yard.engine(0, 4) == 0; i++) {
+      yard.trial(0);
+    }
+    yard.net(0, 1);
+    return yard.engine(0, 4);
+  }
+
+  /** So many that the luck is each of its 32 numbers. */
+  private static void trialsByLuck(KeelHouse yard) {
+    for (int i = 0; i < 20; i++) {
+      int first = (13 * yard.yard(3) + 5) % 32;
+      int second = (13 * first + 5) % 32;
+      int due = (first < 4 ? 1 : 0) + (second < 4 ? 1 : 0);
+      Check.same("trial with the luck " + first + ", " + second, due, yard.trial(0));
+      Check.same("burst ones", (first < 4 ? 1 : 0) + (second < 4 ? 4 : 0), yard.engine(0, 4));
+      Check.same("luck", second, yard.yard(3));
+      Check.same("mend", due, yard.mend(0));
+    }
+  }
+
+  /** What is narrow may burst, so the speed is asked behind each trial. */
+  private static void trialsByWidth() {
+    boolean isSlow = false;
+    boolean isFast = false;
+    KeelHouse yard = Yards.afloat();
+    Yards.buildOn(yard, 0, 23);
+    for (int width = 1; width <= 30 && yard.hull(0, 3) == 2; width++) {
+      yard.net(0, width);
+      yard.valve(0, 2);
+      yard.trial(0);
+      double speed = yard.speed(0, -1);
+      isSlow |= speed >= 3.5 && speed < 4.0;
+      isFast |= speed >= 4.0 && speed < 4.5;
+      Check.same("ready with the speed " + speed, speed >= 4.0, yard.hull(0, 3) == 3);
+    }
+    Check.same("a bit below 4.0 was tried", true, isSlow);
+    Check.same("a bit above it, too", true, isFast);
   }
 
   private static void trialsRefuse() {

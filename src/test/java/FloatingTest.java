@@ -25,6 +25,9 @@ public final class FloatingTest {
     Check.same("weight", 930.0, yard.floats(0, 0));
     Check.same("take 1", 2, yard.take(0, 1));
     Check.same("weight", 910.0, yard.floats(0, 0));
+    Check.near("lcg", (10 * 0.5 + 900 * 3.5) * 40 / 6 / 910, yard.floats(0, 1));
+    Check.near("tcg", 900 * 8.0 / 910, yard.floats(0, 2));
+    Check.near("kg", 900.0 / 910, yard.floats(0, 3));
     Check.same("take 1, that was 2", 1, yard.take(0, 1));
     Check.same("weight", 10.0, yard.floats(0, 0));
     Check.same("take 0", 0, yard.take(0, 0));
@@ -62,10 +65,28 @@ public final class FloatingTest {
     Check.same("fill", 4, yard.fill(0, 123456));
     Check.same("fill", 21, yard.fill(0, 888888));
     Check.same("fill", 48, yard.fill(0, 0));
+    taperedTanks();
     for (int wrong : new int[] {-1, 888889, 900000, 9, 190000, 1000000}) {
       Check.badArgument(yard, "fill " + wrong, () -> yard.fill(0, wrong));
     }
     Check.noIndex(yard, "fill(1, 9)", () -> yard.fill(1, 9));
+  }
+
+  private static void taperedTanks() {
+    KeelHouse yard = new KeelHouse();
+    yard.draw(1, 48, 8, 64);
+    int[] halves = {21, 42, 56, 56, 56, 42, 14};
+    int fills = 8;
+    for (int c = 0; c < 6; c++) {
+      yard.fill(0, fills);
+      fills *= 10;
+      double room = (halves[c] + halves[c + 1]) / 16.0 * 2 * 8;
+      Check.near("a tank of " + c, room, yard.floats(0, 0));
+      Check.near("where it lies", 4 + 8 * c, yard.floats(0, 1));
+    }
+    yard.fill(0, 10000);
+    double b = (halves[4] + halves[5]) / 8.0;
+    Check.near("its free surface", b * b * b * 48 / 72 / yard.floats(0, 0), yard.floats(0, 8));
   }
 
   private static void bulkheads() {
@@ -126,6 +147,22 @@ public final class FloatingTest {
     for (int k = 0; k <= 10; k++) {
       Check.same("a list of " + k + " was seen", true, seen[k]);
     }
+    listsByAndBy(steps);
+  }
+
+  private static void listsByAndBy(double[] steps) {
+    for (int tonnes = 1; tonnes <= 900; tonnes++) {
+      KeelHouse yard = new KeelHouse();
+      yard.draw(0, 40, 6, 40);
+      yard.put(0, 800, 2, 0, 20);
+      yard.put(0, tonnes, 2, 48, 20);
+      double lean = yard.floats(0, 2) / yard.floats(0, 5);
+      int due = 0;
+      while (due < 10 && lean > steps[due]) {
+        due++;
+      }
+      Check.same("list with a lean of " + lean, (double) due, yard.floats(0, 6));
+    }
   }
 
   private static void freeSurfaces() {
@@ -146,6 +183,7 @@ public final class FloatingTest {
   private static void withoutDraught() {
     KeelHouse yard = Yards.drawn();
     yard.put(0, 900, 0, 64, 160);
+    Check.same("with one it floats, and has a trim", true, yard.floats(0, 7) < 0.0 && yard.floats(0, 5) != 0.0);
     yard.put(0, 900, 0, 64, 160);
     yard.put(0, 900, 0, 64, 160);
     yard.fill(0, 4);
@@ -179,6 +217,8 @@ public final class FloatingTest {
     KeelHouse yard = Yards.drawn();
     yard.put(0, 900, 2, 0, 0);
     Check.same("nothing holed", 0.0, yard.flood(0, 0, true));
+    Check.same("the set of one that lies higher than 1.0", 8.0, Yards.drawn().flood(0, 8, true));
+    twelveTimes();
     Check.same("nothing holed, t", yard.floats(0, 4), yard.flood(0, 0, false));
     Check.same("0 holed, bulkheads everywhere", 1.0, yard.flood(0, 1, true));
     double t = yard.flood(0, 1, false);
@@ -193,6 +233,20 @@ public final class FloatingTest {
     Check.badArgument(yard, "flood -1", () -> yard.flood(0, -1, true));
     Check.badArgument(yard, "flood 64", () -> yard.flood(0, 64, true));
     Check.noIndex(yard, "flood(1, 64)", () -> yard.flood(1, 64, true));
+  }
+
+  /** Of 400 on 400 all is flooded: each time t is 1 and 3 / 4 of what it was. */
+  private static void twelveTimes() {
+    KeelHouse yard = new KeelHouse();
+    yard.draw(0, 40, 6, 40);
+    yard.put(0, 400, 2, 0, 0);
+    double t = 1.0;
+    for (int i = 0; i < 12; i++) {
+      t = 1.0 + t * 0.75;
+    }
+    double got = yard.flood(0, 1, false);
+    Check.same("flood looks 12 times: " + got + " is about " + t, true, Math.abs(got - t) < 1e-4);
+    Check.same("all are flooded", 63.0, yard.flood(0, 32, true));
   }
 
   /** With the water above 7 / 8 of the depth what is beside is flooded, too, bulkhead or not. */

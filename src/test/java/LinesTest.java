@@ -132,6 +132,31 @@ public final class LinesTest {
     }
     Check.near("water to the deck", 384.0, yard.water(0, 32, 0));
     wedgeInWater();
+    littleWater();
+  }
+
+  /** Just the middle station has a breadth: a volume of less than 1, and of less than 0.001. */
+  private static void littleWater() {
+    KeelHouse yard = new KeelHouse();
+    yard.draw(0, 24, 4, 16);
+    for (int k = 0; k < 7; k++) {
+      for (int j = 0; j < 5; j++) {
+        yard.offset(0, k, j, k == 3 ? 1 : 0);
+      }
+    }
+    Check.near("volume", 0.25 / 8 * 4 * 24 / 18, yard.water(0, 1, 0));
+    Check.near("middle", 12.0, yard.water(0, 1, 1));
+    Check.near("high", 1.0 / 16, yard.water(0, 1, 2));
+    Check.same("across is not 0.0", true, yard.water(0, 1, 4) > 0.0);
+    for (int j = 0; j < 5; j++) {
+      yard.offset(0, 3, j, j == 1 ? 1 : 0);
+    }
+    Check.same("a volume of less than 0.001", true, yard.water(0, 0, 0) < 0.001);
+    yard.offset(0, 3, 1, 0);
+    for (int what = 0; what <= 5; what++) {
+      Check.same("water(0, 32, " + what + ") of no hull", 0.0, yard.water(0, 32, what));
+    }
+    Check.same("nothing floats on it", -1.0, yard.draught(0, 1));
   }
 
   /** Halves of 0, 20, 40, 60, 80: a triangle of 20 by 4 metres all along. */

@@ -146,24 +146,24 @@ public final class SalesTest {
   private static void fines() {
     KeelHouse yard = Yards.drawn();
     yard.buyer(40, 0, 0, 10, 1000);
-    yard.bid(0, 0, 749);
+    yard.bid(0, 0, 750);
     yard.pass(10);
     Check.same("no fine on the due day", 0, yard.sale(0, 8));
     yard.pass(1);
     Check.same("a fine", 1, yard.sale(0, 8));
-    Check.same("a fiftieth", -14, yard.money(4, 0, 14));
+    Check.same("a fiftieth", -15, yard.money(4, 0, 14));
     yard.pass(23);
     Check.same("24 fines", 24, yard.sale(0, 8));
     Check.same("it goes on", 1, yard.sale(0, 5));
-    Check.same("paid so far", 149, yard.sale(0, 9));
+    Check.same("paid so far", 150, yard.sale(0, 9));
     yard.pass(1);
     Check.same("25 fines", 25, yard.sale(0, 8));
     Check.same("void", 3, yard.sale(0, 5));
     Check.same("paid back", 0, yard.sale(0, 9));
-    Check.same("the fines stay", 5000 - 25 * 14, yard.cash());
+    Check.same("the fines stay", 5000 - 25 * 15, yard.cash());
     Check.same("contracts are even", 0, yard.money(3, 0, 14));
     Check.same("the ship is told still", 0, yard.sale(0, 6));
-    Check.same("our price, too", 749, yard.sale(0, 7));
+    Check.same("our price, too", 750, yard.sale(0, 7));
     Check.badState(yard, "handOver of a void one", () -> yard.handOver(0));
     yard.pass(5);
     Check.same("no more fines", 25, yard.sale(0, 8));
@@ -414,5 +414,13 @@ public final class SalesTest {
     yard.buyer(40, 0, 0, 300, 501);
     Check.same("501", 3, yard.bestBuyer(0));
     Check.same("bestBuyer of a lost one", -1, Yards.lost().bestBuyer(0));
+    KeelHouse both = Yards.drawn();
+    both.buyer(30, 0, 0, 300, 600 + 3 * 7 - 1);
+    both.buyer(30, 0, 0, 300, 30000);
+    Check.same("a price of rival less 1, and rival less 1", 0, both.bestBuyer(0));
+    KeelHouse turned = Yards.drawn();
+    turned.buyer(30, 0, 0, 300, 30000);
+    turned.buyer(40, 0, 0, 300, 600 + 3 * 7 - 1);
+    Check.same("rival less 1, and a price of that", 0, turned.bestBuyer(0));
   }
 }

@@ -122,6 +122,7 @@ public final class StoreTest {
     Check.same("area", 87 * 40, yard.store(0, 8));
     Check.same("cut from the offcut, turned", 0, yard.cut(0, 0, 1, 0));
     Check.same("nothing is left of it", 0, yard.store(0, 7));
+    Check.badState(yard, "cut of what is cut from an offcut", () -> yard.cut(0, 0, 1, 0));
     Check.same("stock", 299, yard.store(0, 5));
     Check.same("the deck from a sheet", 1, yard.cut(0, 0, 2, 0));
     Check.same("the next bottom from the offcut, as it lies", 0, yard.cut(0, 1, 0, 0));
@@ -207,6 +208,13 @@ public final class StoreTest {
     Check.same("45 by 40 along: 1 by 2", 2, five.cut(0, 0, 0, 0));
     Check.same("50 less 45 is an offcut", 1, five.store(0, 7));
     Check.same("5 by what lies along b", 5 * 20, five.store(0, 8));
+    KeelHouse both = withStock(20, 4, 16, 15, 38);
+    Check.same("33 by 40 along: 1 by 3", 3, both.cut(0, 0, 0, 0));
+    Check.same("5 by 15, and 5 by 33", 5 * 15 + 5 * 33, both.store(0, 8));
+    KeelHouse exact = withStock(20, 4, 16, 40, 66);
+    Check.same("33 by 40 along", 1, exact.cut(0, 0, 0, 0));
+    Check.same("33 by 40 is left over", 33 * 40, exact.store(0, 8));
+    Check.same("that is just enough", 0, exact.cut(0, 1, 0, 0));
     KeelHouse narrow = new KeelHouse();
     narrow.draw(0, 20, 4, 16);
     for (int k = 0; k < 7; k++) {
@@ -275,6 +283,9 @@ public final class StoreTest {
     Check.same("cut", 8, yard.cut(0, 0, 0, 0));
     Check.same("cutAll leaves out what is cut, 0, or too thick", 15, yard.cutAll(0, 0));
     Check.same("cutAll once more", 0, yard.cutAll(0, 0));
+    KeelHouse some = withStock(20, 4, 16, 40, 120);
+    Check.same("cutAll, some from offcuts", 18, some.cutAll(0, 0));
+    Check.same("eighteen strakes, fewer sheets", true, some.store(0, 5) > 300 - 18);
     KeelHouse few = new KeelHouse();
     few.draw(0, 40, 6, 40);
     few.sheets(20, 60, 8, 1, 1);
@@ -296,6 +307,36 @@ public final class StoreTest {
     Check.badState(yard, "cut of what is begun", () -> yard.cut(0, 0, 0, 0));
     Check.noIndex(yard, "scrap(1)", () -> yard.scrap(1));
     Check.same("scrap of a lost one", 0, Yards.lost().scrap(0));
+    KeelHouse all = Yards.onSlip();
+    Check.same("all are cut", 18, all.cutAll(0, 0));
+    Check.same("all are thrown away", 18, all.scrap(0));
+    Check.same("all are cut again, as far as there are sheets", true, all.cutAll(0, 0) > 0);
+  }
+
+  /** Panels of 80 by what is broad there: halves of the waterline 1 below, of 4 on deck. */
+  private static void taperedNeeds() {
+    KeelHouse yard = new KeelHouse();
+    yard.draw(1, 48, 8, 64);
+    yard.sheets(10, 80, 8, 1, 1);
+    int[] bottoms = {21, 42, 56, 56, 56, 42, 14};
+    int[] decks = {24, 48, 64, 64, 64, 48, 16};
+    int due = 0;
+    for (int c = 0; c < 6; c++) {
+      int bottom = (int) ((bottoms[c] + bottoms[c + 1]) / 8.0 * 10.0);
+      int deck = (int) ((decks[c] + decks[c + 1]) / 8.0 * 10.0);
+      due += fewest(bottom) + fewest(160) + fewest(deck);
+    }
+    Check.same("needs of a tapered hull", due, yard.needs(0, 0));
+    yard.lay(0, 0);
+    for (int c = 0; c < 6; c++) {
+      int bottom = (int) ((bottoms[c] + bottoms[c + 1]) / 8.0 * 10.0);
+      Check.same("hours of the bottom of " + c, 8 + 80 * bottom / 100, yard.job(0, 1 + 3 * c, 0));
+    }
+  }
+
+  /** Of 10 by 80 for 80 by b: along 1 by so many of 10, across 8 by so many of 80. */
+  private static int fewest(int b) {
+    return Math.min((b + 9) / 10, 8 * ((b + 79) / 80));
   }
 
   private static void needed() {
@@ -309,6 +350,7 @@ public final class StoreTest {
     drawn.sheets(20, 60, 8, 1, 1);
     drawn.plan(0, 3, 0, 9, 8);
     Check.same("needs of a drawn one", 16 * 8, drawn.needs(0, 0));
+    taperedNeeds();
     Check.noIndex(drawn, "needs(1, 0)", () -> drawn.needs(1, 0));
     Check.noIndex(drawn, "needs(0, 1)", () -> drawn.needs(0, 1));
   }

@@ -14,6 +14,7 @@ public final class StrengthTest {
     weakest();
     lightened();
     lightenedInVain();
+    withoutBreadth();
     Check.end();
   }
 
@@ -248,6 +249,10 @@ public final class StrengthTest {
       isSidesMore |= yard.strake(0, c, 1) > 3;
     }
     Check.same("some sides became more", true, isSidesMore);
+    yard.limit(0, 340);
+    Check.same("lighten once more", 26, yard.lighten(0));
+    Check.same("the bottom first", 8, yard.strake(0, 2, 0));
+    Check.same("then the deck", 7, yard.strake(0, 2, 2));
     Check.noIndex(yard, "lighten(1)", () -> yard.lighten(1));
     yard.lay(0, 0);
     Check.badState(yard, "lighten on the slip", () -> yard.lighten(0));
@@ -265,6 +270,34 @@ public final class StrengthTest {
     heavy.put(0, 900, 0, 0, 0);
     Check.same("lighten without a draught", -1, heavy.lighten(0));
     Check.same("its plans became 3", 3, heavy.strake(0, 5, 2));
+    KeelHouse atLast = Yards.drawn();
+    atLast.put(0, 30, 2, 0, 0);
+    atLast.put(0, 30, 3, 0, 0);
+    atLast.limit(0, 70);
+    Check.same("the 80th time is enough", 80, atLast.lighten(0));
+    atForty();
+  }
+
+  /** A hull whose last compartment bears the most, and the least. */
+  private static void atForty() {
+    int[] halves = {
+      0, 0, 4, 0, 0, 0, 0, 0, 80, 33, 0, 22, 33, 22, 76, 7, 67, 16, 0, 0, 0, 80, 30, 80, 80, 24, 0, 37, 67, 0, 58, 0,
+      80, 8, 0};
+    KeelHouse yard = new KeelHouse();
+    yard.draw(0, 40, 4, 40);
+    for (int at = 0; at < 35; at++) {
+      yard.offset(0, at / 5, at % 5, halves[at]);
+    }
+    yard.put(0, 443, 3, 0, 0);
+    yard.limit(0, 20);
+    Check.same("lighten of that hull", -2, yard.lighten(0));
+    Check.same("its bottom is at 40", 40, yard.strake(0, 5, 0));
+    Check.same("its sides followed", 37, yard.strake(0, 5, 1));
+    Check.same("its deck is at 40", 40, yard.strake(0, 5, 2));
+    Check.same("six times nothing became more", 74, becameMore(yard));
+  }
+
+  private static void withoutBreadth() {
     KeelHouse atForty = Yards.drawn();
     for (int c = 0; c < 6; c++) {
       for (int k = 0; k < 7; k++) {

@@ -9,13 +9,16 @@ public final class VoyagesTest {
     sailInVain();
     withoutFuel();
     noMiles();
+    almostThere();
     stowing();
     fire();
     stowRefuses();
     unloading();
     grain();
     lostByList();
+    lostByGrain();
     holed();
+    holedByHollow();
     sunk();
     soldWithLots();
     returning();
@@ -205,6 +208,29 @@ public final class VoyagesTest {
     Check.same("nothing was done", "0 ready at 3", yard.tell(0));
     Check.same("the yard's place in all that", 0, yard.voyage(0, 0));
     exactlyDeepEnough();
+    atOnce();
+  }
+
+  /** What was put aboard last counts, whatever was asked of others before. */
+  private static void atOnce() {
+    KeelHouse yard = withPorts();
+    Yards.addBox(yard);
+    Check.same("the other one floats upright", 0.0, yard.floats(1, 6));
+    yard.put(0, 400, 2, 0, 160);
+    yard.floats(1, 6);
+    Check.same("sail of one that capsizes", -3, yard.sail(0, 0));
+    yard.take(0, 0);
+    yard.put(0, 900, 2, 0, 0);
+    yard.floats(1, 6);
+    Check.same("sail of one that lies deep", -1, yard.sail(0, 2));
+    yard.take(0, 0);
+    yard.bunker(0, 100);
+    yard.sail(0, 0);
+    yard.put(0, 300, 2, 0, 0);
+    double miles = yard.speed(0, -1) * 24.0;
+    yard.floats(1, 6);
+    yard.pass(1);
+    Check.same("it goes as heavy as it is", (int) Math.ceil(200 - miles), yard.voyage(0, 3));
   }
 
   private static void exactlyDeepEnough() {
@@ -258,6 +284,29 @@ public final class VoyagesTest {
     Check.same("and burns nothing", 68, storm.voyage(0, 2));
   }
 
+  /** A port that lies less than a mile further than one day goes. */
+  private static void almostThere() {
+    KeelHouse yard = Yards.ready();
+    double miles = yard.speed(0, -1) * 24.0;
+    int way = ((int) miles / 5 + 1) * 5;
+    Check.same("that is less than a mile", true, way - miles > 0.0 && way - miles < 1.0);
+    yard.port(way / 5, 0, 100);
+    yard.bunker(0, 100);
+    yard.sail(0, 0);
+    yard.pass(1);
+    Check.same("almost there", "0 ready at sea", yard.tell(0));
+    Check.same("a mile is left, up to a whole number", 1, yard.voyage(0, 3));
+    yard.pass(1);
+    Check.same("there", "0 ready at port 0", yard.tell(0));
+    KeelHouse still = Yards.ready();
+    still.port(0, 0, 100);
+    still.sail(0, 0);
+    still.valve(0, 0);
+    still.valve(0, 2);
+    still.pass(1);
+    Check.same("no miles to go, and none gone", "0 ready at port 0", still.tell(0));
+  }
+
   private static void noMiles() {
     KeelHouse yard = Yards.ready();
     yard.port(0, 0, 100);
@@ -280,8 +329,8 @@ public final class VoyagesTest {
     double before = yard.floats(0, 0);
     double kg = yard.floats(0, 3) * before;
     double lcg = yard.floats(0, 1) * before;
-    Check.same("stow tells the list", (int) yard.floats(0, 6), yard.stow(0, 0, 3));
-    Check.same("stow up to the space", (int) yard.floats(0, 6), yard.stow(0, 1, 3));
+    Check.same("stow tells the list", 0, yard.stow(0, 0, 3));
+    Check.same("stow up to the space", 0, yard.stow(0, 1, 3));
     Check.badState(yard, "stow of 1 more", () -> yard.stow(0, 2, 3));
     Check.near("weight", before + 100, yard.floats(0, 0));
     Check.near("kg", (kg + 100 * 2.4) / (before + 100), yard.floats(0, 3));
@@ -296,7 +345,21 @@ public final class VoyagesTest {
     Check.badState(yard, "stow into the engine's", () -> yard.stow(0, 2, 1));
     Check.same("stow elsewhere", 0, yard.stow(0, 2, 0));
     Check.same("stow in the last one", 0, yard.stow(0, 3, 5));
+    Check.near("weight", before + 131, yard.floats(0, 0));
     Check.same("sound", true, yard.isSound());
+    listBehindStowing();
+  }
+
+  private static void listBehindStowing() {
+    KeelHouse yard = withPorts();
+    for (int i = 0; i < 3; i++) {
+      yard.lot(0, 1, 95, 0, 100);
+    }
+    sailTo(yard, 0);
+    yard.put(0, 100, 2, 64, 160);
+    Check.same("list", 8.0, yard.floats(0, 6));
+    Check.same("stow tells the list as it is then", 9, yard.stow(0, 0, 0));
+    Check.same("stow, and it would capsize", 10, yard.stow(0, 1, 2));
   }
 
   private static void fire() {
@@ -344,6 +407,7 @@ public final class VoyagesTest {
 
   private static void unloading() {
     KeelHouse yard = withPorts();
+    unloadEight();
     yard.lot(0, 1, 60, 0, 100);
     yard.lot(0, 1, 40, 1, 250);
     yard.lot(0, 2, 30, 0, 400);
@@ -368,6 +432,27 @@ public final class VoyagesTest {
     Check.same("unload the last one", 400, yard.unload(0));
     Check.same("earned ever", 750, yard.voyage(0, 7));
     Check.same("none is aboard", 0, yard.voyage(0, 4) + yard.voyage(0, 5));
+  }
+
+  private static void unloadEight() {
+    KeelHouse yard = withPorts();
+    for (int i = 0; i < 8; i++) {
+      yard.lot(0, 1, 20, i % 2, 1 << i);
+    }
+    sailTo(yard, 0);
+    for (int i = 0; i < 8; i++) {
+      yard.stow(0, i, 2 + i % 4);
+    }
+    Check.same("eight lots", 8, yard.voyage(0, 4));
+    Check.same("their tonnes", 160, yard.voyage(0, 5));
+    while (yard.yard(1) != 12) {
+      yard.pass(1);
+    }
+    sailTo(yard, 1);
+    for (int i = 0; i < 8; i++) {
+      Check.same("grain alone shifts", i % 2 == 1, yard.ofLot(i, 3) > 0);
+    }
+    Check.same("unload eight", 255, yard.unload(0));
   }
 
   private static void grain() {
@@ -423,6 +508,45 @@ public final class VoyagesTest {
     }
     Check.same("its contract is void the same day", 3, yard.sale(0, 5));
     Check.same("sound", true, yard.isSound());
+  }
+
+  /** What grain shifts in a storm counts the same day. */
+  private static void lostByGrain() {
+    KeelHouse yard = withPorts();
+    yard.lot(0, 1, 90, 1, 100);
+    sailTo(yard, 0);
+    yard.stow(0, 0, 3);
+    yard.put(0, 660, 2, 0, 45);
+    double lean = 45.0 / yard.floats(0, 0) / yard.floats(0, 5);
+    Check.same("upright", 0.0, yard.floats(0, 6));
+    Check.same("half a metre of grain is too much: " + lean, true, lean < 1.0 && 2 * lean > 1.0);
+    while (yard.yard(1) != 12) {
+      yard.pass(1);
+    }
+    yard.net(0, 1);
+    yard.sail(0, 1);
+    yard.pass(1);
+    Check.same("a first storm", "0 ready at sea", yard.tell(0));
+    Check.same("it lists", true, yard.floats(0, 6) > 5.0);
+    yard.pass(1);
+    Check.same("a second one", "0 lost", yard.tell(0));
+  }
+
+  /** Of hollow and crest the one that strains more counts. */
+  private static void holedByHollow() {
+    KeelHouse yard = withPorts();
+    yard.put(0, 100, 2, 0, 0);
+    yard.put(0, 100, 3, 0, 0);
+    Check.same("the hollow", true, yard.test(0, 1, false, 18) > 150.0);
+    Check.same("the crest", true, yard.test(0, 2, false, 18) < 130.0);
+    while (yard.yard(1) != 12) {
+      yard.pass(1);
+    }
+    yard.limit(0, 140);
+    yard.net(0, 1);
+    yard.sail(0, 1);
+    yard.pass(1);
+    Check.same("holed", 1 << yard.weakest(0, false), yard.voyage(0, 6));
   }
 
   private static void holed() {
@@ -597,9 +721,14 @@ public final class VoyagesTest {
     Check.same("foul at a port", true, yard.lies(0, 1) > 0);
     yard.sail(0, -1);
     yard.pass(1);
+    int paid = yard.money(7, 0, 14);
+    int holes = Integer.bitCount(yard.voyage(0, 6));
     Check.same("into the dock, its gate is shut", "0 ready at 2", yard.tell(0));
     Check.same("foul", 0, yard.lies(0, 1));
     Check.same("no tide for the gate", true, yard.yard(2) < 45);
+    yard.pass(1);
+    Check.same("mended in the dock", paid - 40 * holes, yard.money(7, 0, 14));
+    Check.same("not holed any more", 0, yard.voyage(0, 6));
     shiftTo(yard, 2, 3);
     yard.sail(0, 0);
     while (yard.voyage(0, 0) == 1) {

@@ -15,6 +15,7 @@ public final class WorksTest {
     rigOnlyAfloat();
     forecast();
     forecastOfBare();
+    forecastOfMany();
     forecastRefuses();
     Check.end();
   }
@@ -276,18 +277,9 @@ public final class WorksTest {
     Check.same("the rig is done afloat", 0, yard.works(0, 3));
   }
 
-  private static KeelHouse withoutStrakes() {
-    KeelHouse yard = Yards.drawn();
-    for (int c = 0; c < 6; c++) {
-      yard.plan(0, c, 0, 0, 0);
-    }
-    yard.lay(0, 0);
-    return yard;
-  }
-
   /** Five jobs become done, and the luck is with them: what is told comes about. */
   private static void forecast() {
-    KeelHouse yard = withoutStrakes();
+    KeelHouse yard = Yards.withoutStrakes();
     for (int trade = 0; trade < 3; trade++) {
       yard.teams(trade, 1);
     }
@@ -334,6 +326,29 @@ public final class WorksTest {
     Check.same("teams are at the other one's, too", true, two.done(1, 3) > alone);
   }
 
+  /** One team at a keel and some strakes: behind 121 days and more it is NONE, the first that is told is 120. */
+  private static void forecastOfMany() {
+    KeelHouse yard = Yards.drawn();
+    for (int c = 0; c < 6; c++) {
+      yard.plan(0, c, c < 4 ? 6 : 0, c < 3 ? 6 : 0, c < 3 ? 6 : 0);
+    }
+    yard.lay(0, 0);
+    Yards.supply(yard);
+    for (int trade = 0; trade < 3; trade++) {
+      yard.teams(trade, 1);
+    }
+    yard.pass(1);
+    yard.cutAll(0, 0);
+    Check.same("done behind too many", -1, yard.done(0, 3));
+    int days = 0;
+    while (yard.done(0, 3) == -1 && days < 60) {
+      yard.pass(1);
+      days++;
+    }
+    Check.same("the first that is told", 120, yard.done(0, 3));
+    Check.same("no job was faulty by then", 0, yard.yard(11));
+  }
+
   private static void forecastRefuses() {
     KeelHouse yard = Yards.onSlip();
     Check.badArgument(yard, "done(0, 4)", () -> yard.done(0, 4));
@@ -346,7 +361,7 @@ public final class WorksTest {
     KeelHouse drawn = Yards.drawn();
     Check.badState(drawn, "done of a drawn one", () -> drawn.done(0, 0));
     Check.badArgument(drawn, "done(0, 4) of a drawn one", () -> drawn.done(0, 4));
-    KeelHouse slow = withoutStrakes();
+    KeelHouse slow = Yards.withoutStrakes();
     slow.teams(1, 1);
     slow.teams(2, 1);
     Check.same("without platers the keel is never done", -1, slow.done(0, 3));

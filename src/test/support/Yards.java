@@ -66,6 +66,23 @@ final class Yards {
     return yard;
   }
 
+  /** That box on the slip 0 with plans of 0: the jobs 0 and 19 to 23 alone have hours to do. */
+  static KeelHouse withoutStrakes() {
+    KeelHouse yard = drawn();
+    for (int c = 0; c < 6; c++) {
+      yard.plan(0, c, 0, 0, 0);
+    }
+    yard.lay(0, 0);
+    return yard;
+  }
+
+  /** Passes days until there is no storm, and a tide of so much. */
+  static void calm(KeelHouse yard, int least) {
+    for (int i = 0; i < 60 && (yard.yard(1) >= 13 || yard.yard(2) < least); i++) {
+      yard.pass(1);
+    }
+  }
+
   static void launch(KeelHouse yard, int ship) {
     for (int i = 0; i < 60 && yard.hull(ship, 3) == 1; i++) {
       if (yard.launch(ship) < 0) {
