@@ -282,6 +282,26 @@ public final class VoyagesTest {
     storm.pass(1);
     Check.same("without gives it goes nowhere", left, storm.voyage(0, 3));
     Check.same("and burns nothing", 68, storm.voyage(0, 2));
+    fuelOfTwenty();
+  }
+
+  private static void fuelOfTwenty() {
+    KeelHouse drawn = Yards.drawn();
+    drawn.power(0, 20);
+    KeelHouse yard = Yards.ready(drawn);
+    yard.port(99, 99, 100);
+    yard.bunker(0, 400);
+    yard.sail(0, 0);
+    int[] widths = {48, 47, 50, 5, 1};
+    int[] gives = {1920, 1880, 2000, 200, 40};
+    int fuel = 400;
+    for (int i = 0; i < widths.length; i++) {
+      yard.net(0, widths[i]);
+      Check.same("gives", gives[i], yard.engine(0, 6));
+      yard.pass(1);
+      fuel -= (gives[i] + 99) / 100 * 2;
+      Check.same("fuel behind " + gives[i], fuel, yard.voyage(0, 2));
+    }
   }
 
   /** A port that lies less than a mile further than one day goes. */
@@ -348,6 +368,26 @@ public final class VoyagesTest {
     Check.near("weight", before + 131, yard.floats(0, 0));
     Check.same("sound", true, yard.isSound());
     listBehindStowing();
+    spaceOfTapered();
+  }
+
+  /** The space goes by the halves of the waterline 3 beside the compartment. */
+  private static void spaceOfTapered() {
+    KeelHouse drawn = Yards.drawn();
+    for (int k = 0; k < 7; k++) {
+      drawn.offset(0, k, 3, 40 - 2 * k);
+    }
+    KeelHouse yard = Yards.ready(drawn);
+    yard.port(20, 20, 100);
+    yard.port(40, 20, 100);
+    int space = (int) ((36 + 34) / 16.0 * 6 / 2.0 * 40 / 6.0);
+    Check.same("space of 2", 87, space);
+    yard.lot(0, 1, space + 1, 0, 100);
+    yard.lot(0, 1, space, 0, 100);
+    sailTo(yard, 0);
+    Check.badState(yard, "stow of 88", () -> yard.stow(0, 0, 2));
+    Check.same("stow of 87", 0, yard.stow(0, 1, 2));
+    Check.same("stow of 88 where there is more space", 0, yard.stow(0, 0, 0));
   }
 
   private static void listBehindStowing() {
@@ -715,14 +755,16 @@ public final class VoyagesTest {
       yard.pass(1);
     }
     shiftTo(yard, 1, 4);
-    while (yard.lies(0, 1) == 0 || yard.yard(2) >= 40 || yard.yard(1) >= 10) {
+    while (yard.lies(0, 1) == 0 || yard.yard(1) != 12 || yard.yard(0) % 12 == 3) {
       yard.pass(1);
     }
     Check.same("foul at a port", true, yard.lies(0, 1) > 0);
+    yard.limit(0, 20);
     yard.sail(0, -1);
     yard.pass(1);
     int paid = yard.money(7, 0, 14);
     int holes = Integer.bitCount(yard.voyage(0, 6));
+    Check.same("holed in a storm on the day on which it comes in", 1, holes);
     Check.same("into the dock, its gate is shut", "0 ready at 2", yard.tell(0));
     Check.same("foul", 0, yard.lies(0, 1));
     Check.same("no tide for the gate", true, yard.yard(2) < 45);

@@ -98,6 +98,19 @@ final class Yards {
     return yard;
   }
 
+  /** Brings a yard whose ship 0 is drawn as far as that. */
+  static KeelHouse ready(KeelHouse yard) {
+    yard.lay(0, 0);
+    supply(yard);
+    yard.pass(1);
+    yard.cutAll(0, 0);
+    buildOn(yard, 0, 19);
+    launch(yard, 0);
+    buildOn(yard, 0, 23);
+    tryOut(yard, 0);
+    return yard;
+  }
+
   static void tryOut(KeelHouse yard, int ship) {
     for (int i = 0; i < 20 && yard.hull(ship, 3) == 2; i++) {
       yard.trial(ship);
