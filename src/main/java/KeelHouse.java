@@ -1898,7 +1898,7 @@ public final class KeelHouse {
       // Each further round floods one compartment more at least.
       for (int round = 0; round <= COMPARTMENTS && t >= 0.0; round++) {
         t = sinkTo(ship.hull, t);
-        if (!(t > ship.hull.depth * 0.875) || flooded == 0 || flooded == ALL_COMPARTMENTS) {
+        if (t <= ship.hull.depth * 0.875 || flooded == 0 || flooded == ALL_COMPARTMENTS) {
           return t;
         }
         int beside = (flooded << 1 | flooded >> 1) & ALL_COMPARTMENTS;
