@@ -224,10 +224,18 @@ final class RandomCalls {
   private String sales(Model.Ship s) {
     switch (r(0, 3)) {
       case 0: return call("buyer", r(20, 40), r(0, 7), random.nextInt(3) == 0 ? r(0, 255) : 0, r(10, 300), r(400, 3000));
-      case 1: return call("bid", r(0, 3), s.number, r(300, 1200));
+      case 1: return call("bid", buyerFor(s), s.number, r(300, 1200));
       case 2: return call("bestBuyer", s.number);
-      default: return call("handOver", r(0, 3));
+      default: return call("handOver", buyerFor(s));
     }
+  }
+
+  /** The one with whom a ship's contract goes on, or any. */
+  private int buyerFor(Model.Ship s) {
+    for (int i = 0; i < model.buyers.size(); i++) {
+      if (model.buyers.get(i).stands == 1 && model.buyers.get(i).ship == s.number) return i;
+    }
+    return r(0, 3);
   }
 
   private String whileDrawn(int ship) {
@@ -278,7 +286,7 @@ final class RandomCalls {
       case 4: case 5: return call("sail", s.number, r(-1, model.ports.size() - 1));
       case 6: return call("shift", s.number, r(2, 5));
       case 7: return call("limit", s.number, r(20, 120));
-      case 8: return call("handOver", r(0, 3));
+      case 8: return call("handOver", buyerFor(s));
       default: return call("pass", 1);
     }
   }
