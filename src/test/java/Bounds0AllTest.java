@@ -92,17 +92,21 @@ public final class Bounds0AllTest {
     Check.same("weather of 400", 7, yard.yard(1));
   }
 
-  /** Painters rest in rain: with a weather of 4, not with one of 5. */
+  /** In rain, with a weather of 4 but not of 5, painters rest and platers work half a day. */
   static void section0RainIsBelow5() {
+    int[] inRain = {4, 8, 0};
     for (int weather = 0; weather < 16; weather++) {
-      KeelHouse yard = Yards.withoutStrakes();
-      while (yard.yard(1) != (13 * weather + 9) % 16) {
+      for (int trade = 0; trade < 3; trade++) {
+        KeelHouse yard = Yards.withoutStrakes();
+        while (yard.yard(1) != (13 * weather + 9) % 16) {
+          yard.pass(1);
+        }
+        yard.teams(trade, 1);
         yard.pass(1);
+        Check.same("the day's weather", weather, yard.yard(1));
+        Check.same("hours of the trade " + trade + " with " + weather, weather < 5 ? inRain[trade] : 8,
+            yard.yard(12));
       }
-      yard.teams(2, 1);
-      yard.pass(1);
-      Check.same("the day's weather", weather, yard.yard(1));
-      Check.same("hours of a painter with " + weather, weather < 5 ? 0 : 8, yard.yard(12));
     }
   }
 

@@ -206,4 +206,20 @@ public final class Bounds10BooksTest {
     yard.order(yard.sheets(20, 60, 8, 1, 1), 1);
     Check.same("it is another one then", false, before + 31 == yard.digest());
   }
+
+  /** As it is it floats, by plan it would not: that is told of it as it is. */
+  static void promise33AuditOfStrengthGoesByWhatItIs() {
+    KeelHouse yard = new KeelHouse();
+    yard.draw(0, 40, 6, 40);
+    yard.put(0, 900, 0, 0, 0);
+    yard.put(0, 900, 5, 0, 0);
+    yard.put(0, 600, 2, 0, 0);
+    Check.same("as it is", 0, yard.weakest(0, false));
+    Check.same("by plan", -1, yard.weakest(0, true));
+    int e = 3;
+    for (int at = 0; at < 36; at++) {
+      e = e * 31 + yard.strake(0, at / 6, at % 6);
+    }
+    Check.same("audit(3)", e * 31, yard.audit(3));
+  }
 }

@@ -389,4 +389,53 @@ public final class Bounds2FloatingTest {
     }
     Check.same("the most that it survives with", 614, least);
   }
+
+  /** 150 tonnes at a draught of 1.0, with a gm of 0.5: what leans just as much as a step tells. */
+  static void section2ListOfJustEachStep() {
+    int[] tonnes = {12, 54, 108, 81, 108, 141, 116, 140, 126, 120};
+    int[] sides = {1, 1, 1, 2, 2, 2, 3, 3, 4, 5};
+    double[] steps = {0.02, 0.09, 0.18, 0.27, 0.36, 0.47, 0.58, 0.7, 0.84, 1.0};
+    for (int k = 0; k < 10; k++) {
+      for (int turn = -1; turn <= 1; turn += 2) {
+        KeelHouse yard = new KeelHouse();
+        yard.draw(0, 25, 8, 24);
+        yard.put(0, tonnes[k], 2, turn * sides[k], 24);
+        yard.put(0, 150 - tonnes[k], 3, 0, 24);
+        Check.same("gm", 0.5, yard.floats(0, 5));
+        Check.same("lean", turn * steps[k], yard.floats(0, 2) / yard.floats(0, 5));
+        Check.same("list with just " + steps[k], (double) k, yard.floats(0, 6));
+      }
+    }
+  }
+
+  /** Two stations at one end have a breadth of 10 metres: what is flooded there first, and then beside it, sinks it. */
+  private static KeelHouse atOneEnd(boolean isStern, int tonnes) {
+    KeelHouse yard = new KeelHouse();
+    yard.draw(0, 36, 6, 40);
+    for (int station = 0; station < 7; station++) {
+      boolean isBroad = isStern ? station <= 1 : station >= 5;
+      for (int line = 0; line < 5 && !isBroad; line++) {
+        yard.offset(0, station, line, 0);
+      }
+    }
+    yard.put(0, tonnes, isStern ? 0 : 5, 0, 0);
+    return yard;
+  }
+
+  static void section2FloodBesideGoesToTheNextOneAlone() {
+    for (int end = 0; end <= 1; end++) {
+      int first = end == 0 ? 1 : 32;
+      KeelHouse low = atOneEnd(end == 0, 270);
+      low.bulkheads(0, 31);
+      Check.within("below the brim", 4.9, 5.0, low.flood(0, first, false));
+      Check.same("the end alone", (double) first, low.flood(0, first, true));
+      KeelHouse high = atOneEnd(end == 0, 308);
+      high.bulkheads(0, 31);
+      Check.same("beyond it the next one is flooded, too, and it sinks", -1.0, high.flood(0, first, false));
+      KeelHouse light = atOneEnd(end == 0, 193);
+      light.bulkheads(0, end == 0 ? 30 : 15);
+      Check.same("both are flooded, and then all others, which hold nothing", 63.0, light.flood(0, first, true));
+      Check.within("it floats", 5.9, 6.0, light.flood(0, first, false));
+    }
+  }
 }

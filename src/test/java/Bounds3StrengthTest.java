@@ -301,4 +301,139 @@ public final class Bounds3StrengthTest {
       Check.same("without plates from " + c + " on", c, yard.weakest(0, true));
     }
   }
+
+  /** A bottom half as broad as the deck: where N lies, and which edge is further off. */
+  static void section3ModulusOfABottomAndADeckOfTheirOwn() {
+    int[][] plans = {{6, 6, 6}, {10, 1, 3}, {1, 2, 40}, {3, 5, 3}};
+    for (int[] plan : plans) {
+      KeelHouse yard = box();
+      for (int station = 0; station < 7; station++) {
+        yard.offset(0, station, 1, 20);
+      }
+      yard.put(0, 300, 2, 0, 0);
+      planAll(yard, plan[0], plan[1], plan[2]);
+      double p = 5.0 * plan[0];
+      double q = 12.0 * plan[1];
+      double r = 10.0 * plan[2];
+      double n = (q * 3 + r * 6) / (p + q + r);
+      double i = p * n * n + r * (6 - n) * (6 - n) + q * (3 + (3 - n) * (3 - n));
+      double modulus = i / Math.max(n, 6 - n) / 100;
+      Check.near("stress by " + plan[0] + ", " + plan[1] + ", " + plan[2],
+          Math.abs(yard.test(0, 0, true, 12)) / modulus, yard.test(0, 0, true, 0));
+    }
+    KeelHouse even = box();
+    even.put(0, 300, 2, 0, 0);
+    planAll(even, 3, 5, 3);
+    Check.near("bottom and deck together are as large as the sides",
+        Math.abs(even.test(0, 0, true, 12)) / ((30 * 9 * 2 + 60 * 3) / 3.0 / 100), even.test(0, 0, true, 0));
+  }
+
+  private static KeelHouse uneven(int form, int length, int depth, int halfWidth, int station, int line, int half) {
+    KeelHouse yard = new KeelHouse();
+    yard.draw(form, length, depth, halfWidth);
+    yard.offset(0, station, line, half);
+    return yard;
+  }
+
+  private static int weakestOf(KeelHouse yard, int first, int last) {
+    int weakest = 0;
+    double most = -1.0;
+    for (int c = 0; c < 6; c++) {
+      for (int sea = first; sea <= last; sea++) {
+        if (yard.test(0, sea, true, c) > most) {
+          most = yard.test(0, sea, true, c);
+          weakest = c;
+        }
+      }
+    }
+    return weakest;
+  }
+
+  /** Of one hull still water makes another compartment the weakest than the waves do, of the other one the crest. */
+  static void promise11WeakestOfAnyOfTheThreeSeas() {
+    KeelHouse still = uneven(0, 41, 10, 30, 6, 1, 65);
+    still.put(0, 143, 4, 0, 0);
+    Check.same("by the waves alone", 3, weakestOf(still, 1, 2));
+    Check.same("by all", 4, weakestOf(still, 0, 2));
+    Check.same("weakest", 4, still.weakest(0, true));
+    KeelHouse crest = boxOf(24, 4, 48);
+    crest.put(0, 20, 0, 0, 0);
+    Check.same("without the crest it is another one", false, weakestOf(crest, 0, 1) == weakestOf(crest, 0, 2));
+    Check.same("weakest", weakestOf(crest, 0, 2), crest.weakest(0, true));
+    Check.same("weakest", 3, crest.weakest(0, true));
+  }
+
+  private static void lightenedBy(int sea, KeelHouse yard, int limit, int due) {
+    yard.limit(0, limit);
+    Check.same("lighten", due, yard.lighten(0));
+    double other = 0.0;
+    for (int s = 0; s < 3; s++) {
+      other = s == sea ? other : Math.max(other, yard.test(0, s, true, 18));
+    }
+    double most = yard.test(0, sea, true, 18);
+    Check.same("the sea " + sea + " strains it most", true, most > other);
+    Check.same("no more than its limit", true, most <= limit);
+  }
+
+  static void promise9LightenByEachSea() {
+    KeelHouse still = uneven(2, 44, 6, 62, 4, 0, 59);
+    still.put(0, 52, 2, 0, 0);
+    lightenedBy(0, still, 198, 21);
+    KeelHouse hollow = boxOf(24, 4, 48);
+    hollow.put(0, 60, 3, 0, 0);
+    lightenedBy(1, hollow, 100, 28);
+    KeelHouse crest = new KeelHouse();
+    crest.draw(2, 24, 4, 48);
+    crest.put(0, 20, 1, 0, 0);
+    lightenedBy(2, crest, 100, 21);
+  }
+
+  /** Both compartments amidships are strained alike: the smaller one comes first, also as the 80 times end. */
+  static void promise9LightenTheSmallerCompartmentFirst() {
+    KeelHouse yard = box();
+    yard.put(0, 100, 2, 0, 0);
+    yard.put(0, 100, 3, 0, 0);
+    yard.limit(0, 20);
+    Check.same("lighten", -2, yard.lighten(0));
+    Check.same("bottom and deck of 2", 30, yard.strake(0, 2, 0) + yard.strake(0, 2, 2));
+    Check.same("bottom and deck of 3", 29, yard.strake(0, 3, 0) + yard.strake(0, 3, 2));
+  }
+
+  /** One end bears nearly all: bottom and deck there come to 40, and five times nothing becomes more. */
+  static void promise9LightenUpTo40() {
+    int[] halves = {
+      0, 0, 4, 0, 0, 0, 0, 0, 80, 33, 0, 22, 33, 22, 76, 7, 67, 16, 0, 0, 0, 80, 30, 80, 80, 24, 0, 37, 67, 0, 58, 0,
+      80, 8, 0};
+    KeelHouse yard = boxOf(40, 4, 40);
+    for (int at = 0; at < 35; at++) {
+      yard.offset(0, at / 5, at % 5, halves[at]);
+    }
+    yard.put(0, 430, 3, 0, 0);
+    yard.limit(0, 20);
+    Check.same("lighten", -2, yard.lighten(0));
+    Check.same("the bottom", 40, yard.strake(0, 5, 0));
+    Check.same("the deck", 40, yard.strake(0, 5, 2));
+    Check.same("the sides are still less by 3", 37, yard.strake(0, 5, 1));
+    Check.same("75 of 80 became more", 75, stronger(yard));
+  }
+
+  /** A box whose plates weigh alike everywhere is hardly strained in still water. */
+  static void section3StressOfNearlyNothing() {
+    KeelHouse yard = box();
+    double most = 0.0;
+    for (int c = 0; c < 6; c++) {
+      most = Math.max(most, yard.test(0, 0, true, c));
+    }
+    Check.same("the greatest stress", most, yard.test(0, 0, true, 18));
+    Check.same("it is less than a thousandth", true, most < 0.001);
+  }
+
+  /** Plates of 1 millimetre in the compartment 0 alone. */
+  static void promise8PlanOf1Weighs() {
+    KeelHouse yard = box();
+    planAll(yard, 0, 0, 0);
+    yard.plan(0, 0, 1, 1, 1);
+    double plates = 32.0 * 40 / 6 * 0.008;
+    Check.near("what it carries less what it bears", plates * 5 / 6, yard.test(0, 0, true, 6));
+  }
 }

@@ -428,13 +428,12 @@ public final class Bounds4StoreTest {
     Check.same("of one that is fitted", 0, Place.READY.yard().needs(0, 0));
   }
 
-  /** Plates of 3, the thinnest that there are, weigh, and those of a plan of 1 by plan. */
+  /** Plates of 3, the thinnest that there are, are fitted for a plan of 1. */
   static void section4PlatesAreOfTheirKindsThickness() {
     KeelHouse yard = Yards.drawn();
     for (int c = 0; c < 6; c++) {
       yard.plan(0, c, 1, 1, 1);
     }
-    Check.near("by plan", 32.0 * 40 / 6 * 0.008 / 6 * 3 - 32.0 * 40 / 6 * 0.008 / 2, yard.test(0, 0, true, 8));
     yard.lay(0, 0);
     yard.sheets(20, 60, 3, 1, 1);
     yard.order(0, 300);
@@ -445,5 +444,25 @@ public final class Bounds4StoreTest {
     Yards.buildOn(yard, 0, 19);
     Check.same("fitted", 3, yard.strake(0, 5, 5));
     Check.near("weight", 6 * 32.0 * 40 / 6 * 3 * 0.008 + 65, yard.floats(0, 0));
+  }
+
+  /** 67 by 30 is smaller than 27 by 100, though it is broader: that is taken. */
+  static void section4SmallestAreaOfOffcuts() {
+    KeelHouse yard = new KeelHouse();
+    yard.draw(0, 20, 5, 16);
+    for (int station = 0; station < 7; station++) {
+      yard.offset(0, station, 1, 10);
+    }
+    yard.sheets(30, 100, 6, 1, 1);
+    yard.order(0, 300);
+    yard.lay(0, 0);
+    yard.pass(1);
+    Check.same("33 by 25 leaves 67 by 30 and 5 by 33", 1, yard.cut(0, 0, 0, 0));
+    Check.same("33 by 100 leaves 27 by 100", 2, yard.cut(0, 0, 1, 0));
+    Check.same("all of them", 2010 + 165 + 2700, yard.store(0, 8));
+    Check.same("33 by 25 from an offcut", 0, yard.cut(0, 1, 0, 0));
+    Check.same("the smaller one is gone", 165 + 2700, yard.store(0, 8));
+    Check.same("33 by 25 from the other one", 0, yard.cut(0, 2, 0, 0));
+    Check.same("that is gone, too", 165, yard.store(0, 8));
   }
 }

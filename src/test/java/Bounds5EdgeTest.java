@@ -498,4 +498,40 @@ public final class Bounds5EdgeTest {
     slip.pass(1);
     Check.same("a day on the slip 1", -2, slip.money(2, 0, 14));
   }
+
+  /** Planned of 1, cut from 40: as it is it lies much deeper than by plan. */
+  private static KeelHouse heavyPlates() {
+    KeelHouse yard = new KeelHouse();
+    yard.draw(0, 40, 6, 40);
+    for (int c = 0; c < 6; c++) {
+      yard.plan(0, c, 1, 1, 1);
+    }
+    yard.lay(0, 0);
+    yard.sheets(40, 120, 40, 1, 1);
+    yard.order(0, 300);
+    for (int trade = 0; trade < 3; trade++) {
+      yard.teams(trade, 6);
+    }
+    yard.pass(1);
+    yard.cutAll(0, 0);
+    Yards.buildOn(yard, 0, 19);
+    return yard;
+  }
+
+  static void section5NeedGoesByWhatItIsNotByPlan() {
+    KeelHouse yard = heavyPlates();
+    yard.put(0, 600, 2, 0, 0);
+    int need = yard.lies(0, 2);
+    Check.same("it lies deep", true, need > 25);
+    while (yard.yard(1) >= 13 || yard.yard(2) - 10 >= need || yard.yard(2) - 10 < need - 10) {
+      yard.pass(1);
+    }
+    Check.inVain(yard, "launch with too little a tide", -1, () -> yard.launch(0));
+    Yards.calm(yard, need + 10);
+    Check.same("launch with enough", 3, yard.launch(0));
+    while (yard.yard(1) >= 13 || yard.yard(2) - 25 >= need || yard.yard(2) - 25 < need - 15) {
+      yard.pass(1);
+    }
+    Check.inVain(yard, "shift with too little a tide", -1, () -> yard.shift(0, 5));
+  }
 }

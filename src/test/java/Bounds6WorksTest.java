@@ -455,4 +455,130 @@ public final class Bounds6WorksTest {
       Check.same("hours are worked at " + place, places.contains(place), yard.yard(12) > before);
     }
   }
+
+  private static int days(KeelHouse yard, int job) {
+    return (yard.job(0, job, 0) + 7) / 8;
+  }
+
+  private static int early(KeelHouse yard, int job) {
+    int most = 0;
+    for (int before = 0; before < 24; before++) {
+      if ((yard.job(0, job, 8) >> before & 1) == 1) {
+        most = Math.max(most, early(yard, before) + days(yard, before));
+      }
+    }
+    return most;
+  }
+
+  private static int late(KeelHouse yard, int job, int end) {
+    int least = end;
+    for (int behind = 0; behind < 24; behind++) {
+      if ((yard.job(0, behind, 8) >> job & 1) == 1) {
+        least = Math.min(least, late(yard, behind, end));
+      }
+    }
+    return least - days(yard, job);
+  }
+
+  /** By each compartment one strake takes longer than those of the others do. */
+  static void section6EarlyLateAndSlackOfEachJob() {
+    for (int c = 0; c < 6; c++) {
+      for (int strake = 0; strake < 3; strake++) {
+        KeelHouse yard = Yards.drawn();
+        planNone(yard, 0);
+        yard.plan(0, c, strake == 0 ? 6 : 0, strake == 1 ? 6 : 0, strake == 2 ? 6 : 0);
+        yard.lay(0, 0);
+        int end = 0;
+        for (int job = 0; job < 24; job++) {
+          end = Math.max(end, early(yard, job) + days(yard, job));
+        }
+        Check.same("end", end, yard.works(0, 0));
+        int critical = 0;
+        for (int job = 0; job < 24; job++) {
+          int early = early(yard, job);
+          int late = late(yard, job, end);
+          Check.same("early of " + job, early, yard.job(0, job, 4));
+          Check.same("late of " + job, late, yard.job(0, job, 5));
+          Check.same("slack of " + job, late - early, yard.job(0, job, 6));
+          critical |= late == early && yard.job(0, job, 2) == 0 ? 1 << job : 0;
+        }
+        Check.same("critical", critical, yard.works(0, 2));
+      }
+    }
+  }
+
+  /** The bulkheads of 0 have 7 days of slack and could begin; the engine of 1 has none, though it begins on day 10. */
+  static void section6SlackIsLateLessEarly() {
+    KeelHouse yard = new KeelHouse();
+    yard.draw(0, 40, 6, 40);
+    planNone(yard, 0);
+    yard.draw(0, 40, 6, 40);
+    planNone(yard, 1);
+    yard.power(1, 1);
+    yard.lay(0, 0);
+    yard.teams(1, 2);
+    yard.pass(4);
+    yard.teams(1, 0);
+    yard.teams(0, 2);
+    yard.pass(8);
+    Check.same("the keel of 0 is done", 1, yard.job(0, 0, 2));
+    yard.teams(0, 0);
+    yard.lay(1, 1);
+    yard.teams(1, 1);
+    Check.same("slack of the bulkheads of 0", 7, yard.job(0, 19, 6));
+    Check.same("early of them", 0, yard.job(0, 19, 4));
+    Check.same("slack of the engine of 1", 0, yard.job(1, 20, 6));
+    Check.same("early of it", 10, yard.job(1, 20, 4));
+    yard.pass(1);
+    Check.same("the engine of 1 goes first", 22 - 8, yard.job(1, 20, 0));
+    Check.same("the bulkheads of 0 wait", 2, yard.job(0, 19, 0));
+  }
+
+  /** Where one team works at what takes longest a second one makes it faster; a seventh of another trade does not. */
+  static void promise20DoneWithATeamMoreOfEachTrade() {
+    for (int trade = 0; trade < 3; trade++) {
+      KeelHouse yard = new KeelHouse();
+      yard.draw(0, 40, 6, 40);
+      planNone(yard, 0);
+      yard.bulkheads(0, trade == 1 ? 31 : 0);
+      yard.lay(0, 0);
+      for (int other = 0; other < 3; other++) {
+        yard.teams(other, other == trade ? 1 : 6);
+      }
+      if (trade == 2) {
+        yard.teams(0, 6);
+        yard.teams(1, 6);
+        yard.teams(2, 0);
+        yard.pass(20);
+        yard.teams(2, 1);
+      }
+      int alone = yard.done(0, 3);
+      for (int more = 0; more < 3; more++) {
+        int days = yard.done(0, more);
+        Check.same("one more of " + more + " with few of " + trade, more == trade, days < alone);
+        yard.teams(more, yard.yard(4 + more) < 6 ? yard.yard(4 + more) + 1 : 6);
+        if (more == trade) {
+          Check.same("as with so many", days, yard.done(0, 3));
+          yard.teams(more, 1);
+        }
+      }
+    }
+  }
+
+  /** Nothing is faulty in it, however often it is asked: it is told as before. */
+  static void promise20DoneAsOftenAsIsAsked() {
+    KeelHouse yard = Yards.withoutStrakes();
+    for (int trade = 0; trade < 3; trade++) {
+      yard.teams(trade, 1);
+    }
+    int days = yard.done(0, 3);
+    for (int i = 0; i < 40; i++) {
+      Check.same("done", days, yard.done(0, 3));
+    }
+    KeelHouse six = onSlip();
+    days = six.done(0, 3);
+    for (int i = 0; i < 20; i++) {
+      Check.same("done of all jobs", days, six.done(0, 3));
+    }
+  }
 }

@@ -343,4 +343,21 @@ public final class Bounds7EnginesTest {
     Check.same("speed for 2000", true, v > yard.speed(0, 1999) && v < 32.0);
     Check.same("18 halvings", 0.0, v * 262144 / 32 - (int) (v * 262144 / 32));
   }
+
+  /** Two pipes ahead of a narrower one: either may be shut, that one may not. */
+  static void promise24EnginePipesThatMayBeShut() {
+    KeelHouse yard = without();
+    yard.pipe(0, 0, 1, 5);
+    yard.pipe(0, 0, 1, 5);
+    yard.pipe(0, 1, 7, 5);
+    Check.same("may be shut", 3, yard.engine(0, 7));
+    Check.same("least", 0, yard.engine(0, 8));
+    yard.pipe(0, 1, 7, 4);
+    Check.same("may be shut", 0, yard.engine(0, 7));
+    Check.same("least", 4, yard.engine(0, 8));
+    yard.valve(0, 3);
+    Check.same("a shut one is none", 3, yard.engine(0, 7));
+    yard.pipe(0, 3, 4, 9);
+    Check.same("one that leads nowhere", 3 + 16, yard.engine(0, 7));
+  }
 }

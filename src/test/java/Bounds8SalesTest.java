@@ -555,4 +555,73 @@ public final class Bounds8SalesTest {
       }
     }
   }
+
+  /** 144 tonnes at a draught of 1.0 of 24 by 6 metres, 26 eighths up: 0.5 and 3.0 less 3.25. */
+  static void promise26BreaksRule1WithAGmOfJustAQuarter() {
+    KeelHouse yard = new KeelHouse();
+    yard.draw(0, 24, 8, 24);
+    yard.put(0, 144, 2, 0, 26);
+    Check.same("gm", 0.25, yard.floats(0, 5));
+    Check.same("just a quarter", 0, broken(yard, 1));
+  }
+
+  /** 450 and 150 tonnes on 60 metres have a trim of just 1.5. */
+  static void promise26BreaksRule6WithJustAFortieth() {
+    for (int turn = 0; turn <= 1; turn++) {
+      KeelHouse yard = new KeelHouse();
+      yard.draw(0, 60, 8, 40);
+      yard.put(0, 450, turn == 0 ? 3 : 2, 0, 0);
+      yard.put(0, 150, turn == 0 ? 4 : 1, 0, 0);
+      Check.same("trim", turn == 0 ? 1.5 : -1.5, yard.floats(0, 7));
+      Check.same("just a fortieth", 0, broken(yard, 6));
+      yard.put(0, 1, turn == 0 ? 5 : 0, 0, 0);
+      Check.same("a bit more", 1, broken(yard, 6));
+    }
+  }
+
+  static void promise26BreaksNoneOrJustSome() {
+    KeelHouse yard = Yards.ready();
+    yard.limit(0, 400);
+    Check.same("none", 0, yard.breaks(0));
+    yard.limit(0, 20);
+    Check.same("the stress alone", 4, yard.breaks(0));
+    yard.limit(0, 400);
+    yard.net(0, 10);
+    Check.same("the speed alone", 16, yard.breaks(0));
+    yard.net(0, 40);
+    yard.valve(0, 0);
+    yard.valve(0, 4);
+    Check.same("the net alone", 32, yard.breaks(0));
+  }
+
+  static void promise27SaleHowItStands() {
+    KeelHouse yard = Place.READY.yard();
+    Yards.addBox(yard);
+    for (int buyer = 1; buyer <= 3; buyer++) {
+      yard.buyer(20, 0, 0, 10, 300);
+    }
+    int[] waiting = {20, 0, 0, yard.yard(0) + 10, 300, 0, -1, 0, 0, 0, 400 + 3 * yard.yard(1)};
+    for (int what = 0; what <= 10; what++) {
+      Check.same("sale(1, " + what + ") as it waits", waiting[what], yard.sale(1, what));
+    }
+    yard.bid(1, 0, 301);
+    Check.same("gone to a rival", 4, yard.sale(1, 5));
+    Check.same("without a ship", -1, yard.sale(1, 6));
+    Check.same("without a price", 0, yard.sale(1, 7));
+    yard.bid(2, 0, 300);
+    Check.same("a contract goes on", 1, yard.sale(2, 5));
+    Check.same("its ship", 0, yard.sale(2, 6));
+    Check.same("our price", 300, yard.sale(2, 7));
+    yard.handOver(2);
+    Check.same("handed over", 2, yard.sale(2, 5));
+    Check.same("all is paid", 300, yard.sale(2, 9));
+    yard.bid(3, 1, 50);
+    yard.pass(30);
+    yard.pass(5);
+    Check.same("void", 3, yard.sale(3, 5));
+    Check.same("its ship still", 1, yard.sale(3, 6));
+    Check.same("our price still", 50, yard.sale(3, 7));
+    Check.same("nothing is paid", 0, yard.sale(3, 9));
+    Check.same("handed over still", 2, yard.sale(2, 5));
+  }
 }

@@ -723,4 +723,116 @@ public final class Bounds9VoyagesTest {
       Check.same("miles left", far == less ? 0 : (int) Math.ceil(5 * far - miles), yard.voyage(0, 3));
     }
   }
+
+  /** With 519 tonnes it goes just 150 miles a day, with 140 it lacks less than a hundredth of 160. */
+  static void section9TheWayIsJustGone() {
+    int[] tonnes = {519, 140, 139};
+    int[] ways = {150, 160, 160};
+    for (int i = 0; i < 3; i++) {
+      KeelHouse yard = Place.READY.yard();
+      aheadOf(yard, 5);
+      yard.put(0, tonnes[i], 2, 0, 0);
+      yard.bunker(0, 100);
+      yard.port(ways[i] / 5, 0, 100);
+      yard.sail(0, 2);
+      double left = ways[i] - yard.speed(0, -1) * 24.0;
+      Check.same("foul of 1, as it was reckoned", 1, yard.lies(0, 1));
+      Check.same("what is left", i == 1, left > 0.0 && left < 0.01);
+      yard.pass(1);
+      Check.same("with " + tonnes[i], i == 1 ? "0 ready at sea" : "0 ready at port 2", yard.tell(0));
+      Check.same("miles", i == 1 ? 1 : 0, yard.voyage(0, 3));
+    }
+  }
+
+  /** Half a metre in each storm, three storms in sixteen days. */
+  static void promise31OfLotSideBehindManyStorms() {
+    KeelHouse yard = atPort(1, 1);
+    yard.stow(0, 0, 3);
+    yard.port(99, 99, 100);
+    yard.net(0, 1);
+    yard.sail(0, 2);
+    int storms = 0;
+    while (storms < 24) {
+      Check.same("behind " + storms + " storms", 4 * storms, yard.ofLot(0, 3));
+      yard.net(0, 1);
+      yard.valve(0, 0);
+      yard.valve(0, 2);
+      yard.pass(1);
+      storms += yard.yard(1) >= 13 ? 1 : 0;
+    }
+    Check.same("behind 24", 96, yard.ofLot(0, 3));
+  }
+
+  /** The after half has plates of 40, the other one of 8, both planned of 6. */
+  static void section9HoledIsTheWeakestAsItIs() {
+    KeelHouse yard = Yards.drawn();
+    yard.lay(0, 0);
+    Yards.supply(yard);
+    yard.sheets(40, 120, 40, 1, 1);
+    yard.order(1, 300);
+    yard.pass(1);
+    for (int at = 0; at < 18; at++) {
+      yard.cut(0, at / 3, at % 3, at / 3 < 3 ? 1 : 0);
+    }
+    Yards.buildOn(yard, 0, 19);
+    Yards.launch(yard, 0);
+    Yards.buildOn(yard, 0, 23);
+    Yards.tryOut(yard, 0);
+    yard.put(0, 200, 0, 0, 0);
+    yard.put(0, 300, 5, 0, 0);
+    int weakest = yard.weakest(0, false);
+    Check.same("weakest as it is", 3, weakest);
+    Check.same("by plan it is another one", 2, yard.weakest(0, true));
+    yard.limit(0, 20);
+    yard.port(99, 99, 200);
+    yard.net(0, 1);
+    aheadOf(yard, 15);
+    Check.same("sail", 990, yard.sail(0, 0));
+    yard.pass(1);
+    Check.same("holed", 1 << weakest, yard.voyage(0, 6));
+  }
+
+  static void promise30SailInAStorm() {
+    KeelHouse yard = Place.READY.yard();
+    aheadOf(yard, 13);
+    yard.pass(1);
+    Check.same("a storm", 13, yard.yard(1));
+    Check.same("sail in a storm", 300, yard.sail(0, 1));
+  }
+
+  /** 100 tonnes lie high to starboard: a list of 8, with 95 more of 9, with 190 more of 10. */
+  static void promise29StowTellsTheListThen() {
+    KeelHouse yard = atPort(95, 0, 95, 0);
+    yard.put(0, 100, 2, 64, 160);
+    Check.same("list", 8.0, yard.floats(0, 6));
+    Check.same("stow", 9, yard.stow(0, 0, 0));
+    Check.same("stow", 10, yard.stow(0, 1, 2));
+  }
+
+  static void promise30UnloadWhatIsForThatPort() {
+    KeelHouse yard = atPort(50, 0, 40, 1, 30, 2);
+    yard.port(45, 20, 100);
+    yard.lot(0, 2, 20, 0, 999);
+    yard.lot(1, 0, 20, 0, 500);
+    yard.stow(0, 0, 0);
+    yard.stow(0, 1, 3);
+    yard.stow(0, 3, 4);
+    Check.inVain(yard, "unload where none is for", 0, () -> yard.unload(0));
+    yard.sail(0, 1);
+    comeIn(yard);
+    Check.same("unload of two", 1 + 3, yard.unload(0));
+    Check.same("earned", 4, yard.voyage(0, 7));
+    Check.same("paid", 4, yard.money(6, 0, 14));
+    Check.inVain(yard, "unload once more", 0, () -> yard.unload(0));
+    int[] standing = {2, 2, 0, 1, 0};
+    for (int lot = 0; lot < 5; lot++) {
+      Check.same("how " + lot + " stands", standing[lot], yard.ofLot(lot, 0));
+      Check.same("its ship", lot == 3 ? 0 : -1, yard.ofLot(lot, 1));
+      Check.same("its compartment", lot == 3 ? 4 : -1, yard.ofLot(lot, 2));
+    }
+    yard.sail(0, 2);
+    comeIn(yard);
+    Check.same("unload of the last one", 999, yard.unload(0));
+    Check.same("earned ever", 1003, yard.voyage(0, 7));
+  }
 }
