@@ -222,4 +222,17 @@ public final class Bounds10BooksTest {
     }
     Check.same("audit(3)", e * 31, yard.audit(3));
   }
+
+  static void promise33AuditOfEachPartAtEachPlace() {
+    for (Place place : Place.values()) {
+      KeelHouse yard = place.yard();
+      yard.sheets(23, 77, 9, 2, 3);
+      yard.order(1, 7);
+      yard.lot(1, 0, 20, 1, 30);
+      yard.buyer(30, 5, 3, 100, 900);
+      for (int part = 1; part <= 10; part++) {
+        Check.same("audit(" + part + ") at " + place, Audits.of(yard, part), yard.audit(part));
+      }
+    }
+  }
 }

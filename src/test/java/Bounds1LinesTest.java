@@ -243,4 +243,19 @@ public final class Bounds1LinesTest {
       Check.same("water(0, 1, " + what + ") is more", true, yard.water(0, 1, what) > 0.0);
     }
   }
+
+  static void promise2DrawByEachForm() {
+    int[][] along = {{8, 8, 8, 8, 8, 8, 8}, {3, 6, 8, 8, 8, 6, 2}, {1, 4, 7, 8, 6, 3, 0}};
+    int[][] up = {{8, 8, 8, 8, 8}, {4, 7, 8, 8, 8}, {1, 4, 6, 8, 8}};
+    for (int form = 0; form < 3; form++) {
+      for (int half : new int[] {16, 63, 80}) {
+        KeelHouse yard = new KeelHouse();
+        yard.draw(form, 40, 6, half);
+        for (int at = 0; at < 35; at++) {
+          Check.same("half " + at + " of form " + form, half * along[form][at / 5] * up[form][at % 5] / 64,
+              yard.hull(0, 100 + at));
+        }
+      }
+    }
+  }
 }

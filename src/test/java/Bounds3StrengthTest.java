@@ -436,4 +436,20 @@ public final class Bounds3StrengthTest {
     double plates = 32.0 * 40 / 6 * 0.008;
     Check.near("what it carries less what it bears", plates * 5 / 6, yard.test(0, 0, true, 6));
   }
+
+  static void promise9LimitIs120AtFirst() {
+    KeelHouse yard = box();
+    Check.same("limit", 120, yard.limit(0, 20));
+    Check.same("limit", 20, yard.limit(0, 400));
+    Check.same("limit", 400, yard.limit(0, 120));
+  }
+
+  static void promise8PlanTellsTheSumBefore() {
+    KeelHouse yard = box();
+    Check.same("6 each", 18, yard.plan(0, 0, 1, 10, 40));
+    Check.same("1, 10 and 40", 51, yard.plan(0, 0, 40, 40, 40));
+    Check.same("40 each", 120, yard.plan(0, 0, 0, 0, 0));
+    Check.same("0 each", 0, yard.plan(0, 0, 6, 6, 6));
+    Check.same("another one", 18, yard.plan(0, 5, 0, 0, 0));
+  }
 }

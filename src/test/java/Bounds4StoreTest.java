@@ -362,6 +362,8 @@ public final class Bounds4StoreTest {
     }
     Check.same("six of 10 by 33 more: the oldest one was thrown away", 8, yard.yard(9));
     Check.same("the second 7 by 120 and the younger 40 by 33 are left", 840 + 1320, yard.store(0, 8));
+    yard.cut(0, 5, 0, 1);
+    Check.same("the second 7 by 120 is gone, the younger 40 by 33 is left", 1320, yard.store(0, 8));
   }
 
   static void promise13CutAllCounts() {

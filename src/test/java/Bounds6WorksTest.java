@@ -302,12 +302,6 @@ public final class Bounds6WorksTest {
 
   /** Of slacks that are alike the smallest ship, and of that the smallest job, with two teams at most. */
   static void section6SlacksThatAreAlike() {
-    KeelHouse yard = new KeelHouse();
-    for (int ship = 0; ship < 2; ship++) {
-      yard.draw(0, 40, 6, 40);
-    }
-    yard.lay(1, 0);
-    yard.lay(0, 1);
     int[][] due = {{80, 80}, {72, 80}, {64, 80}, {64, 72}, {64, 64}, {64, 64}};
     for (int teams = 0; teams <= 5; teams++) {
       KeelHouse alike = new KeelHouse();
@@ -580,5 +574,37 @@ public final class Bounds6WorksTest {
     for (int i = 0; i < 20; i++) {
       Check.same("done of all jobs", days, six.done(0, 3));
     }
+  }
+
+  static void section6JobsBeforeEachJob() {
+    KeelHouse yard = onSlip();
+    int bottoms = 1 << 1 | 1 << 4 | 1 << 7 | 1 << 10 | 1 << 13 | 1 << 16;
+    for (int job = 0; job < 24; job++) {
+      int due = job == 0 ? 0 : job > 18 ? 0 : job % 3 == 1 ? 1 : 1 << job - 1;
+      switch (job) {
+        case 6: due |= 1 << 20; break;
+        case 19: due = bottoms; break;
+        case 20: due = 1 << 1 | 1 << 4 | 1 << 7; break;
+        case 21: due = bottoms << 1 | 1 << 20; break;
+        case 22: due = bottoms << 2; break;
+        case 23: due = 1 << 21 | 1 << 22; break;
+        default: break;
+      }
+      Check.same("before " + job, due, yard.job(0, job, 8));
+      Check.same("trade of " + job, job <= 18 ? 0 : job <= 21 ? 1 : 2, yard.job(0, job, 1));
+    }
+  }
+
+  static void section6TeamsOfEachTradeCost() {
+    KeelHouse yard = new KeelHouse();
+    yard.teams(0, 1);
+    yard.pass(1);
+    Check.same("one plater", -3, yard.money(1, -1, 14));
+    yard.teams(1, 2);
+    yard.pass(1);
+    Check.same("and two fitters", -3 - 9, yard.money(1, -1, 14));
+    yard.teams(2, 4);
+    yard.pass(1);
+    Check.same("and four painters", -3 - 9 - 21, yard.money(1, -1, 14));
   }
 }

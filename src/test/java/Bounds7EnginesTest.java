@@ -360,4 +360,19 @@ public final class Bounds7EnginesTest {
     yard.pipe(0, 3, 4, 9);
     Check.same("one that leads nowhere", 3 + 16, yard.engine(0, 7));
   }
+
+  /** 0 to 1, 1 to 7, 0 to 2, 2 to 7, 1 to 2 and 2 to 1: told by the flow with some of them shut. */
+  static void promise22NetOfSixPipes() {
+    int[][] shut = {{}, {0}, {1}, {2}, {3}, {4}, {5}, {0, 3}, {1, 2}, {0, 3, 5}, {1, 2, 4}, {0, 2}, {1, 3}};
+    int[] flow = {18, 9, 9, 9, 9, 18, 18, 9, 9, 0, 0, 0, 0};
+    for (int i = 0; i < shut.length; i++) {
+      KeelHouse yard = without();
+      Check.same("there were none", 0, yard.net(0, 9));
+      Check.same("there are six", 6, yard.engine(0, 1));
+      for (int pipe : shut[i]) {
+        yard.valve(0, pipe);
+      }
+      Check.same("flow with " + java.util.Arrays.toString(shut[i]) + " shut", flow[i], yard.engine(0, 2));
+    }
+  }
 }

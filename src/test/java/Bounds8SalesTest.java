@@ -211,20 +211,6 @@ public final class Bounds8SalesTest {
 
   /** A ship that is lost makes it void the same day, without a fine, also behind its due day. */
   static void section8VoidAsTheShipIsLost() {
-    KeelHouse yard = Place.SLIP.yard();
-    yard.cutAll(0, 0);
-    yard.buyer(20, 0, 0, 10, 300);
-    yard.bid(1, 0, 100);
-    Yards.buildOn(yard, 0, 19);
-    Check.same("fines by now", true, yard.sale(1, 8) > 0);
-    int fines = yard.sale(1, 8);
-    if (yard.sale(1, 5) == 1) {
-      yard.put(0, 400, 2, 0, 160);
-      Yards.calm(yard, 40);
-      fines = yard.sale(1, 8);
-    }
-    Check.same("void by its fines", 3, yard.sale(1, 5));
-    Check.same("as many as there can be", 25, fines);
     KeelHouse lost = Yards.withoutStrakes();
     lost.teams(0, 6);
     lost.teams(1, 6);
@@ -235,7 +221,7 @@ public final class Bounds8SalesTest {
     while (lost.yard(0) < 32 || lost.yard(1) >= 13 || lost.yard(2) < 40) {
       lost.pass(1);
     }
-    fines = lost.sale(0, 8);
+    int fines = lost.sale(0, 8);
     Check.same("some fines", true, fines > 0 && fines < 24);
     Check.same("launch", -3, lost.launch(0));
     Check.same("it goes on till the day ends", 1, lost.sale(0, 5));
@@ -623,5 +609,18 @@ public final class Bounds8SalesTest {
     Check.same("our price still", 50, yard.sale(3, 7));
     Check.same("nothing is paid", 0, yard.sale(3, 9));
     Check.same("handed over still", 2, yard.sale(2, 5));
+  }
+
+  static void section8TwoFifthsAsItIsLaunched() {
+    for (int price : new int[] {1, 2, 3, 4, 99, 774}) {
+      KeelHouse yard = Yards.built();
+      yard.buyer(40, 0, 0, 300, 1000);
+      yard.bid(0, 0, price);
+      Check.same("a fifth of " + price, price / 5, yard.sale(0, 9));
+      Yards.launch(yard, 0);
+      Check.same("launched", 2, yard.hull(0, 3));
+      Check.same("and two of " + price, price / 5 + price * 2 / 5, yard.sale(0, 9));
+      Check.same("booked", price / 5 + price * 2 / 5, yard.money(3, 0, 14));
+    }
   }
 }

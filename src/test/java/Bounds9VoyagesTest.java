@@ -684,9 +684,16 @@ public final class Bounds9VoyagesTest {
       for (int other = 1; other <= 2; other++) {
         blockBerth(yard, other, length == 70 ? 6 - other : 5);
       }
+      aheadOf(yard, 15);
+      yard.limit(0, 20);
       yard.sail(0, -1);
       yard.pass(1);
       Check.same("of " + length, length == 70 ? "0 ready at 2" : "0 ready at sea", yard.tell(0));
+      Check.same("holed on its way", 1, Integer.bitCount(yard.voyage(0, 6)));
+      Check.same("foul", length == 70, yard.lies(0, 1) == 0);
+      yard.pass(1);
+      Check.same("mended in the dock", length == 70, yard.voyage(0, 6) == 0);
+      Check.same("that costs 40 there", length == 70 ? -40 : 0, yard.money(7, 0, 14));
     }
   }
 
@@ -834,5 +841,23 @@ public final class Bounds9VoyagesTest {
     comeIn(yard);
     Check.same("unload of the last one", 999, yard.unload(0));
     Check.same("earned ever", 1003, yard.voyage(0, 7));
+  }
+
+  static void promise31VoyageLotsAboardAndTheirTonnes() {
+    KeelHouse yard = atPort(10, 0, 20, 1, 30, 2, 40, 0, 1, 0, 2, 1, 3, 0, 4, 1);
+    int[] into = {0, 0, 4, 2, 0, 2, 0, 2};
+    int tonnes = 0;
+    int[] each = {10, 20, 30, 40, 1, 2, 3, 4};
+    Check.same("none aboard", 0, yard.voyage(0, 4) + yard.voyage(0, 5));
+    for (int lot = 0; lot < 8; lot++) {
+      yard.stow(0, lot, into[lot]);
+      tonnes += each[lot];
+      Check.same("lots", lot + 1, yard.voyage(0, 4));
+      Check.same("tonnes", tonnes, yard.voyage(0, 5));
+    }
+    yard.sail(0, 1);
+    comeIn(yard);
+    yard.unload(0);
+    Check.same("none aboard", 0, yard.voyage(0, 4) + yard.voyage(0, 5));
   }
 }
