@@ -375,4 +375,21 @@ public final class Bounds7EnginesTest {
       Check.same("flow with " + java.util.Arrays.toString(shut[i]) + " shut", flow[i], yard.engine(0, 2));
     }
   }
+
+  /** The shortest way takes the pipe 1: for the most it has to be given back, and less or nothing flows in it then. */
+  static void section7NarrowPipesBehindOneThatIsGivenBack() {
+    int[][] cases = {{1, 99, 2, 5, 1}, {50, 99, 100, 5, 50}, {99, 99, 198, 9, 99}, {50, 20, 70, 9, 20}, {2, 1, 3, 9, 1}};
+    for (int[] c : cases) {
+      KeelHouse yard = without();
+      int[][] pipes = {{0, 1}, {1, 2}, {2, 7}, {0, 3}, {3, 4}, {4, 2}, {1, 5}, {5, 6}, {6, 7}};
+      for (int pipe = 0; pipe < pipes.length; pipe++) {
+        boolean isRound = pipe >= 3 && pipe <= 5;
+        yard.pipe(0, pipes[pipe][0], pipes[pipe][1], c[isRound ? 1 : 0]);
+      }
+      Check.same("flow of " + c[0] + " and " + c[1], c[2], yard.engine(0, 2));
+      Check.same("narrow", c[3], yard.engine(0, 3));
+      Check.same("that one may be shut", 2, yard.engine(0, 7));
+      Check.same("least", c[4], yard.engine(0, 8));
+    }
+  }
 }

@@ -860,4 +860,67 @@ public final class Bounds9VoyagesTest {
     yard.unload(0);
     Check.same("none aboard", 0, yard.voyage(0, 4) + yard.voyage(0, 5));
   }
+
+  static void section9LotsOfOthersStayAsAShipIsLostOrSold() {
+    for (Place place : new Place[] {Place.LOST, Place.SOLD}) {
+      KeelHouse yard = place.yard();
+      Check.same("one that waits, " + place, 0, yard.ofLot(0, 0));
+    }
+    KeelHouse yard = atPort(10, 0, 20, 0, 30, 0);
+    yard.stow(0, 0, 3);
+    yard.sail(0, 1);
+    comeIn(yard);
+    yard.unload(0);
+    yard.lot(1, 0, 5, 0, 7);
+    yard.stow(0, 3, 4);
+    aheadOf(yard, 15);
+    yard.sail(0, 0);
+    yard.put(0, 400, 2, 0, 160);
+    yard.pass(1);
+    Check.same("lost", "0 lost", yard.tell(0));
+    int[] standing = {2, 0, 0, 3};
+    for (int lot = 0; lot < 4; lot++) {
+      Check.same("how " + lot + " stands", standing[lot], yard.ofLot(lot, 0));
+    }
+  }
+
+  /** What is lost on the day on which it would come in comes to no spot and no port. */
+  static void section9LostOnTheDayOfItsArrival() {
+    for (int port : new int[] {-1, 2}) {
+      KeelHouse yard = Place.READY.yard();
+      yard.port(0, 0, 100);
+      yard.port(1, 0, 100);
+      yard.sail(0, 3);
+      yard.pass(1);
+      aheadOf(yard, 15);
+      yard.sail(0, port);
+      yard.put(0, 400, 2, 0, 160);
+      int fees = yard.money(2, 0, 14);
+      yard.pass(1);
+      Check.same("lost", "0 lost", yard.tell(0));
+      Check.same("its spot", -1, yard.lies(0, 0));
+      Check.same("the berth 3", -1, yard.spot(3, 0));
+      Check.same("where it is", 0, yard.voyage(0, 0));
+      Check.same("its port", -1, yard.voyage(0, 1));
+      Check.same("a day at sea", 2, yard.voyage(0, 8));
+      Check.same("sound", true, yard.isSound());
+      yard.pass(1);
+      Check.same("it costs nothing", fees, yard.money(2, 0, 14));
+    }
+  }
+
+  static void section9SailsAgainBehindADayOnWhichItWaited() {
+    KeelHouse yard = Place.WAITING.yard();
+    Yards.calm(yard, 46);
+    yard.shift(1, 4);
+    yard.pass(1);
+    Check.same("it came in", "0 ready at 5", yard.tell(0));
+    int days = yard.voyage(0, 8);
+    Check.same("sail", 300, yard.sail(0, 1));
+    Check.same("miles left", 300, yard.voyage(0, 3));
+    yard.pass(1);
+    Check.same("it is at sea", "0 ready at sea", yard.tell(0));
+    Check.same("miles left", true, yard.voyage(0, 3) > 0 && yard.voyage(0, 3) < 300);
+    Check.same("a day more", days + 1, yard.voyage(0, 8));
+  }
 }
