@@ -467,4 +467,26 @@ public final class Bounds4StoreTest {
     Check.same("33 by 25 from the other one", 0, yard.cut(0, 2, 0, 0));
     Check.same("that is gone, too", 165, yard.store(0, 8));
   }
+
+  /** One sheet is all there is: what it leaves does for the next panel, and then nothing does. */
+  static void promise12CutFromAnOffcutWithoutStock() {
+    KeelHouse yard = new KeelHouse();
+    yard.draw(0, 20, 4, 16);
+    yard.sheets(40, 66, 6, 1, 1);
+    yard.order(0, 1);
+    yard.lay(0, 0);
+    yard.pass(1);
+    Check.same("33 by 40 of 40 by 66", 1, yard.cut(0, 0, 0, 0));
+    Check.same("stock", 0, yard.store(0, 5));
+    Check.same("from the 33 by 40 that is left", 0, yard.cut(0, 5, 2, 0));
+    Check.inVain(yard, "with nothing left", -2, () -> yard.cut(0, 1, 0, 0));
+    KeelHouse all = new KeelHouse();
+    all.draw(0, 20, 4, 16);
+    all.sheets(40, 66, 6, 1, 1);
+    all.order(0, 1);
+    all.lay(0, 0);
+    all.pass(1);
+    Check.same("cutAll from one sheet", 2, all.cutAll(0, 0));
+    Check.inVain(all, "cutAll with nothing left", 0, () -> all.cutAll(0, 0));
+  }
 }

@@ -534,4 +534,17 @@ public final class Bounds5EdgeTest {
     }
     Check.inVain(yard, "shift with too little a tide", -1, () -> yard.shift(0, 5));
   }
+
+  static void section5SpotAtEachPlace() {
+    int[] spots = {-1, 0, 3, 2, 3, 2, -1, -1, -1, -1, -1};
+    for (Place place : Place.values()) {
+      KeelHouse yard = place.yard();
+      int due = spots[place.ordinal()];
+      Check.same("lies(0, 0) at " + place, due, yard.lies(0, 0));
+      for (int spot = 0; spot < 6; spot++) {
+        int other = place == Place.WAITING && spot == 5 ? 1 : -1;
+        Check.same("spot(" + spot + ", 0) at " + place, spot == due ? 0 : other, yard.spot(spot, 0));
+      }
+    }
+  }
 }

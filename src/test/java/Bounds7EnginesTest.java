@@ -392,4 +392,26 @@ public final class Bounds7EnginesTest {
       Check.same("least", c[4], yard.engine(0, 8));
     }
   }
+
+  static void promise24SpeedForNoneIsThatForGives() {
+    for (Place place : Place.values()) {
+      KeelHouse yard = place.yard();
+      Check.same("speed(0, -1) at " + place, yard.speed(0, yard.engine(0, 6)), yard.speed(0, -1));
+    }
+  }
+
+  /** What leads out of the shaft, or back into the boiler, makes nothing more. */
+  static void section7PipesOutOfTheShaftAndIntoTheBoiler() {
+    KeelHouse yard = without();
+    yard.pipe(0, 0, 1, 9);
+    yard.pipe(0, 1, 7, 5);
+    yard.pipe(0, 7, 2, 9);
+    yard.pipe(0, 2, 0, 9);
+    yard.pipe(0, 1, 0, 9);
+    yard.pipe(0, 7, 1, 9);
+    Check.same("flow", 5, yard.engine(0, 2));
+    Check.same("narrow", 2, yard.engine(0, 3));
+    Check.same("may be shut", 4 + 8 + 16 + 32, yard.engine(0, 7));
+    Check.same("least", 0, yard.engine(0, 8));
+  }
 }
