@@ -131,8 +131,6 @@ public final class KeelHouse {
   private int weather = 7;
   private int refused;
 
-  // ---------------------------------------------------------------- 1. lines
-
   public KeelHouse() {
     Works[] built = new Works[ships.length];
     Works[] sketched = new Works[ships.length];
@@ -153,6 +151,8 @@ public final class KeelHouse {
     sketch = new Crews(sketched, false);
     basin = new Basin(cargo);
   }
+
+  // ---------------------------------------------------------------- 1. lines
 
   public int draw(int form, int length, int depth, int halfWidth)
       throws IllegalArgumentException, IllegalStateException {
