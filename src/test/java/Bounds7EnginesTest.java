@@ -414,4 +414,43 @@ public final class Bounds7EnginesTest {
     Check.same("may be shut", 4 + 8 + 16 + 32, yard.engine(0, 7));
     Check.same("least", 0, yard.engine(0, 8));
   }
+
+  /** The first way to the shaft goes by 1 to 2, with 3 of its 9: no more than these 3 can be given back. */
+  static void section7FlowThatGivesBackLessThanAPipeIsWide() {
+    KeelHouse yard = without();
+    int[][] pipes = {{0, 1, 3}, {1, 2, 9}, {2, 7, 3}, {0, 5, 10}, {5, 6, 10}, {6, 2, 10}, {1, 3, 10}, {3, 4, 10},
+      {4, 7, 10}};
+    for (int[] pipe : pipes) {
+      yard.pipe(0, pipe[0], pipe[1], pipe[2]);
+    }
+    Check.same("flow", 6, yard.engine(0, 2));
+    Check.same("narrow", 1 + 4, yard.engine(0, 3));
+    Check.same("least", 3, yard.engine(0, 8));
+  }
+
+  /** Neither the bulkheads ahead of it nor the wires behind it bring the engine's weight and steam. */
+  static void section7EngineAsJob20IsDoneAndNoOther() {
+    KeelHouse yard = Yards.withoutStrakes();
+    yard.teams(0, 6);
+    yard.pass(10);
+    yard.teams(1, 1);
+    int seen = 0;
+    for (int i = 0; i < 60 && yard.job(0, 21, 2) == 0; i++) {
+      int done = yard.works(0, 1) >> 19 & 7;
+      seen |= 1 << done;
+      boolean isThere = (done & 2) != 0;
+      Check.same("weight with " + done, isThere ? 65.0 : 0.0, yard.floats(0, 0));
+      Check.same("gives with " + done, isThere ? 1000 : 0, yard.engine(0, 6));
+      yard.pass(1);
+    }
+    Check.same("the engine was done ahead of the wires", true, (seen & (1 << 2 | 1 << 3)) != 0);
+    KeelHouse other = Yards.withoutStrakes();
+    other.teams(0, 6);
+    other.pass(10);
+    other.teams(1, 4);
+    other.pass(4);
+    Check.same("the bulkheads are done ahead of the engine", 1, other.works(0, 1) >> 19 & 7);
+    Check.same("weight", 0.0, other.floats(0, 0));
+    Check.same("gives", 0, other.engine(0, 6));
+  }
 }

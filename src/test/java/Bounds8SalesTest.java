@@ -623,4 +623,20 @@ public final class Bounds8SalesTest {
       Check.same("booked", price / 5 + price * 2 / 5, yard.money(3, 0, 14));
     }
   }
+
+  /** With one ship and four buyers: it is the last one whose contract goes on. */
+  static void section8ContractOfTheLastBuyer() {
+    KeelHouse yard = Yards.built();
+    for (int buyer = 0; buyer < 4; buyer++) {
+      yard.buyer(40, 0, 0, 300, 1000);
+    }
+    Check.same("bid", true, yard.bid(3, 0, 500));
+    for (int buyer = 0; buyer < 4; buyer++) {
+      int b = buyer;
+      Check.badState(yard, "bid for " + b, () -> yard.bid(b, 0, 400));
+    }
+    Check.same("it is under contract", -1, yard.bestBuyer(0));
+    Yards.launch(yard, 0);
+    Check.same("a fifth, and two as it was launched", 100 + 200, yard.sale(3, 9));
+  }
 }

@@ -207,6 +207,26 @@ public final class Bounds9VoyagesTest {
     }
   }
 
+  /** Of eight lots each may be the one of fire. */
+  static void section9FireOfEachLot() {
+    for (int fire = 0; fire < 8; fire++) {
+      int[] lots = new int[16];
+      for (int lot = 0; lot < 8; lot++) {
+        lots[2 * lot] = 10;
+        lots[2 * lot + 1] = lot == fire || lot == (fire + 1) % 8 ? 2 : 0;
+      }
+      KeelHouse yard = atPort(lots);
+      int f = fire;
+      yard.stow(0, f, 3);
+      Check.badState(yard, "boxes with the fire " + f, () -> yard.stow(0, (f + 2) % 8, 3));
+      for (int c = 2; c <= 4; c++) {
+        int into = c;
+        Check.badState(yard, "more fire into " + c, () -> yard.stow(0, (f + 1) % 8, into));
+      }
+      Check.same("more fire into 5", 0, yard.stow(0, (f + 1) % 8, 5));
+    }
+  }
+
   private static void fireAndAnother(int c, int other) {
     boolean isBeside = Math.abs(c - other) <= 1;
     KeelHouse fire = atPort(10, 2, 10, 2);

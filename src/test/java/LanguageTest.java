@@ -1,21 +1,31 @@
+import com.sun.source.tree.ArrayAccessTree;
 import com.sun.source.tree.AssertTree;
+import com.sun.source.tree.AssignmentTree;
 import com.sun.source.tree.BinaryTree;
+import com.sun.source.tree.BlockTree;
 import com.sun.source.tree.ClassTree;
 import com.sun.source.tree.CompilationUnitTree;
 import com.sun.source.tree.CompoundAssignmentTree;
+import com.sun.source.tree.DoWhileLoopTree;
 import com.sun.source.tree.ExpressionTree;
+import com.sun.source.tree.ForLoopTree;
 import com.sun.source.tree.ImportTree;
 import com.sun.source.tree.LambdaExpressionTree;
 import com.sun.source.tree.LiteralTree;
 import com.sun.source.tree.MemberReferenceTree;
 import com.sun.source.tree.MethodInvocationTree;
 import com.sun.source.tree.MethodTree;
+import com.sun.source.tree.NewArrayTree;
 import com.sun.source.tree.NewClassTree;
+import com.sun.source.tree.SwitchTree;
 import com.sun.source.tree.SynchronizedTree;
 import com.sun.source.tree.ThrowTree;
 import com.sun.source.tree.Tree;
 import com.sun.source.tree.TryTree;
+import com.sun.source.tree.TypeCastTree;
+import com.sun.source.tree.UnaryTree;
 import com.sun.source.tree.VariableTree;
+import com.sun.source.tree.WhileLoopTree;
 import com.sun.source.util.JavacTask;
 import com.sun.source.util.TreePath;
 import com.sun.source.util.TreePathScanner;
@@ -197,7 +207,89 @@ public final class LanguageTest extends TreePathScanner<Void, Void> {
             .contains(type))) {
       say(tree, "rule 5: the static field " + tree.getName());
     }
+    if (isStatic && type.endsWith("[]") && (!(tree.getInitializer() instanceof NewArrayTree)
+        || ((NewArrayTree) tree.getInitializer()).getInitializers() == null)) {
+      say(tree, "rule 5: " + tree.getName() + " is not written out");
+    }
+    if (type.endsWith("[][]") && isOwn || type.endsWith("[][][]")) {
+      say(tree, "rule 3: the dimensions of " + type);
+    }
     return super.visitVariable(tree, none);
+  }
+
+  @Override
+  public Void visitBlock(BlockTree tree, Void none) {
+    if (tree.isStatic()) {
+      say(tree, "rule 5: a static initialiser block");
+    }
+    return super.visitBlock(tree, none);
+  }
+
+  /** What a static row holds is never changed. */
+  private void written(ExpressionTree target) {
+    if (target instanceof ArrayAccessTree) {
+      ExpressionTree row = ((ArrayAccessTree) target).getExpression();
+      Element element = trees.getElement(new TreePath(getCurrentPath(), row));
+      if (element != null && element.getModifiers().contains(javax.lang.model.element.Modifier.STATIC)) {
+        say(target, "rule 5: " + row + " is changed");
+      }
+    }
+  }
+
+  @Override
+  public Void visitAssignment(AssignmentTree tree, Void none) {
+    written(tree.getVariable());
+    return super.visitAssignment(tree, none);
+  }
+
+  @Override
+  public Void visitUnary(UnaryTree tree, Void none) {
+    if (!Set.of(Tree.Kind.UNARY_MINUS, Tree.Kind.LOGICAL_COMPLEMENT, Tree.Kind.BITWISE_COMPLEMENT)
+        .contains(tree.getKind())) {
+      written(tree.getExpression());
+    }
+    return super.visitUnary(tree, none);
+  }
+
+  @Override
+  public Void visitTypeCast(TypeCastTree tree, Void none) {
+    if (!typeOf(tree.getType()).getKind().isPrimitive()) {
+      say(tree, "rule 7: a cast of an object");
+    }
+    return super.visitTypeCast(tree, none);
+  }
+
+  @Override
+  public Void visitSwitch(SwitchTree tree, Void none) {
+    TypeMirror type = typeOf(tree.getExpression());
+    if (isText(type)) {
+      say(tree, "rule 10: a switch on a text");
+    }
+    return super.visitSwitch(tree, none);
+  }
+
+  private void bound(Tree loop, ExpressionTree condition) {
+    if (condition == null || condition.toString().replace("(", "").replace(")", "").equals("true")) {
+      say(loop, "rule 9: a loop without an end of its own");
+    }
+  }
+
+  @Override
+  public Void visitForLoop(ForLoopTree tree, Void none) {
+    bound(tree, tree.getCondition());
+    return super.visitForLoop(tree, none);
+  }
+
+  @Override
+  public Void visitWhileLoop(WhileLoopTree tree, Void none) {
+    bound(tree, tree.getCondition());
+    return super.visitWhileLoop(tree, none);
+  }
+
+  @Override
+  public Void visitDoWhileLoop(DoWhileLoopTree tree, Void none) {
+    bound(tree, tree.getCondition());
+    return super.visitDoWhileLoop(tree, none);
   }
 
   @Override
@@ -249,14 +341,24 @@ public final class LanguageTest extends TreePathScanner<Void, Void> {
     if (isText && tree.getKind() != Tree.Kind.EQUAL_TO && tree.getKind() != Tree.Kind.NOT_EQUAL_TO) {
       say(tree, "rule 10: texts joined by +");
     }
+    boolean isCompared = tree.getKind() == Tree.Kind.EQUAL_TO || tree.getKind() == Tree.Kind.NOT_EQUAL_TO;
+    if (isCompared && (isNamed(tree.getLeftOperand()) && isNamed(tree.getRightOperand()))) {
+      say(tree, "rule 6: texts or Integers compared by " + tree);
+    }
     if (tree.getKind() == Tree.Kind.REMAINDER && isFloating(typeOf(tree))) {
       say(tree, "rule 3: % on doubles");
     }
     return super.visitBinary(tree, none);
   }
 
+  private boolean isNamed(ExpressionTree tree) {
+    TypeMirror type = typeOf(tree);
+    return isText(type) || type != null && type.toString().equals("java.lang.Integer");
+  }
+
   @Override
   public Void visitCompoundAssignment(CompoundAssignmentTree tree, Void none) {
+    written(tree.getVariable());
     if (isText(typeOf(tree.getVariable()))) {
       say(tree, "rule 10: texts joined by +=");
     }
